@@ -161,14 +161,12 @@ public final class FirstComer {
         if (!village.areTwoTold(parcel, other) || side < 0 || side >= SIDES) {
             return false;
         }
-        int there = parcel * SIDES + side;
-        int back = other * SIDES + (side + 2) % SIDES;
-        if ((village.sides[there] >> other & 1) != 0) {
+        if ((village.sides[parcel * SIDES + side] >> other & 1) != 0) {
             return false;
         }
         village.changes++;
-        village.sides[there] |= 1 << other;
-        village.sides[back] |= 1 << parcel;
+        village.layAt(parcel, other, side);
+        village.layAt(other, parcel, (side + 2) % SIDES);
         return true;
     }
 
@@ -187,8 +185,8 @@ public final class FirstComer {
             return false;
         }
         village.changes++;
-        village.degrees[a * PEOPLE + b] = degree;
-        village.degrees[b * PEOPLE + a] = degree;
+        village.makeKin(a, b, degree);
+        village.makeKin(b, a, degree);
         return true;
     }
 
@@ -583,8 +581,10 @@ public final class FirstComer {
     /** What is so of parcels and people, but for who holds what. */
     private static final class Village {
         private final int[] sides = new int[PARCELS * SIDES];
+        private final int[] besides = new int[PARCELS];
         private final int[] waters = new int[PARCELS];
         private final int[] degrees = new int[PEOPLE * PEOPLE];
+        private final int[] kinfolk = new int[PEOPLE];
         private int told;
         private int needy;
         private int caring = EVERYBODY;
@@ -600,33 +600,25 @@ public final class FirstComer {
             return isTold(parcel) && isTold(other) && parcel != other;
         }
 
-        int atSidesOf(int parcel) {
-            int bits = 0;
-            for (int side = 0; side < SIDES; side++) {
-                bits |= sides[parcel * SIDES + side];
-            }
-            return bits;
+        void layAt(int parcel, int other, int side) {
+            sides[parcel * SIDES + side] |= 1 << other;
+            besides[parcel] |= 1 << other;
         }
 
-        int kinOf(int person) {
-            int bits = 0;
-            for (int other = 0; other < PEOPLE; other++) {
-                if (degrees[person * PEOPLE + other] != 0) {
-                    bits |= 1 << other;
-                }
-            }
-            return bits;
+        void makeKin(int person, int other, int degree) {
+            degrees[person * PEOPLE + other] = degree;
+            kinfolk[person] = withBit(kinfolk[person], other, degree != 0);
         }
 
         /** Those who stand so to a parcel and a seller, as bits. */
         int standing(int who, Holdings held, int parcel, int seller) {
             switch (who) {
                 case WHO_KIN:
-                    return kinOf(seller);
+                    return kinfolk[seller];
                 case WHO_SHARE:
                     return held.holders[parcel];
                 case WHO_SIDE:
-                    return held.holdersOf(atSidesOf(parcel));
+                    return held.holdersOf(besides[parcel]);
                 default:
                     return held.holdersOf(waters[parcel]);
             }
@@ -640,7 +632,7 @@ public final class FirstComer {
                 case WHO_SHARE:
                     return held.of(parcel, person);
                 case WHO_SIDE:
-                    return held.sumOf(atSidesOf(parcel), person);
+                    return held.sumOf(besides[parcel], person);
                 default:
                     return held.sumOf(waters[parcel], person);
             }
@@ -657,6 +649,8 @@ public final class FirstComer {
         private final int[] within = new int[MOST_LINES];
         private final int[] codeFrom = new int[MOST_LINES];
         private final int[] codeTill = new int[MOST_LINES];
+        // Whether a line's condition asks for something of the one who is asked about.
+        private final boolean[] personal = new boolean[MOST_LINES];
         private final int[] code = new int[MOST_SIGNS];
         private int codes;
         private int lines;
@@ -683,6 +677,7 @@ public final class FirstComer {
             forms[line] = 0;
             codeFrom[line] = codes;
             codeTill[line] = codes;
+            personal[line] = false;
             ranks[line] = NONE;
             if (isMaybe) {
                 sets[line] = SETS_WITH[maybes];
@@ -703,6 +698,14 @@ public final class FirstComer {
             if (codes < MOST_SIGNS) {
                 code[codes] = item;
                 codes++;
+            }
+        }
+
+        void endCondition(int line) {
+            codeTill[line] = codes;
+            for (int at = codeFrom[line]; at < codes; at++) {
+                boolean asks = code[at] >= CODE_FACT + FACT_NEED && code[at] <= CODE_FACT + FACT_DEGREE;
+                personal[line] = personal[line] || asks;
             }
         }
 
@@ -882,7 +885,7 @@ public final class FirstComer {
             if (!first || token == WORD_WHEN) {
                 want(WORD_WHEN);
                 readLevel(LEVEL_JOIN, 0);
-                law.codeTill[line] = law.codes;
+                law.endCondition(line);
             }
             want(';');
         }
@@ -1039,8 +1042,16 @@ public final class FirstComer {
             this.village = village;
         }
 
-        void ask(Holdings newHeld, Deal newDeal) {
+        /** Who stands how to a parcel and a seller: asked once for all the deals in that parcel as long as nothing goes over. */
+        void settle(Holdings newHeld, int parcel, int seller) {
             held = newHeld;
+            for (int who = 0; who < WHOS; who++) {
+                standing[who] = village.standing(who, held, parcel, seller);
+            }
+        }
+
+        /** Begins the judgment of a deal in the parcel and of the seller that were settled. */
+        void ask(Deal newDeal) {
             deal = newDeal;
             facts[FACT_N] = deal.n;
             facts[FACT_PRICE] = deal.price;
@@ -1052,9 +1063,6 @@ public final class FirstComer {
                 facts[FACT_FORM + form] = form == deal.form ? 1 : 0;
             }
             facts[FACT_DAY] = village.now;
-            for (int who = 0; who < WHOS; who++) {
-                standing[who] = village.standing(who, held, deal.parcel, deal.from);
-            }
         }
 
         private void askAbout(int person) {
@@ -1069,7 +1077,10 @@ public final class FirstComer {
             if (people == 0 || law.codeFrom[line] == law.codeTill[line]) {
                 return people != 0;
             }
-            for (int person = 0; person < PEOPLE; person++) {
+            if (!law.personal[line]) {
+                return value(law.codeFrom[line], law.codeTill[line]) != 0;
+            }
+            for (int person = 0; person < PEOPLE && people >> person != 0; person++) {
                 if ((people >> person & 1) != 0) {
                     askAbout(person);
                     if (value(law.codeFrom[line], law.codeTill[line]) != 0) {
@@ -1124,7 +1135,8 @@ public final class FirstComer {
 
         /** Who may come first by the law as it is in force: the lines, whether it is free, and the bits. */
         void judgeAll(Holdings newHeld, Deal newDeal) {
-            ask(newHeld, newDeal);
+            settle(newHeld, newDeal.parcel, newDeal.from);
+            ask(newDeal);
             free = false;
             for (int line = 0; line < law.lines; line++) {
                 if (!law.first[line] && law.sets[line] == EVERY_SET) {
@@ -1396,6 +1408,7 @@ public final class FirstComer {
         private int owner;
         private int stranger;
         private int each;
+        private int turned;
         private int form;
         private int start;
         private int end;
@@ -1440,13 +1453,21 @@ public final class FirstComer {
             }
         }
 
-        /** With which of the sets this passing is open by one form at least; form is the last one that was tried. */
-        long openSets(int which, int n, long sets) {
+        /** From now on it is of the parcel (0) or of the other one (1) that twelfths go. */
+        void turnTo(int which) {
+            turned = which == 0 ? parcel : other;
+            if (turned != NONE) {
+                judge.settle(trial, turned, owner);
+            }
+        }
+
+        /** With which of the sets such a passing is open by one form at least; form is the last one that was tried. */
+        long openSets(int n, long sets) {
             long left = sets;
             for (int f = 0; f < FORMS && left != 0; f++) {
                 form = f;
-                deal.tellEach(which == 0 ? parcel : other, owner, stranger, n, form, each);
-                judge.ask(trial, deal);
+                deal.tellEach(turned, owner, stranger, n, form, each);
+                judge.ask(deal);
                 left &= ~judge.openSets(left, EVERYBODY);
             }
             return sets & ~left;
@@ -1489,8 +1510,9 @@ public final class FirstComer {
 
         private boolean endsBehind(int state) {
             place(state);
+            turnTo(0);
             int n = left(state, 0);
-            if (openSets(0, n, EMPTY_SET) == 0) {
+            if (openSets(n, EMPTY_SET) == 0) {
                 return false;
             }
             end = behind(state, 0, n);
@@ -1501,10 +1523,11 @@ public final class FirstComer {
         private void spread(int state) {
             place(state);
             for (int which = 0; which < 2; which++) {
+                turnTo(which);
                 int most = left(state, which) - (which == 0 ? 1 : 0);
                 for (int n = 1; n <= most; n++) {
                     int next = behind(state, which, n);
-                    if (cameFrom[next] == NONE && openSets(which, n, EMPTY_SET) != 0) {
+                    if (cameFrom[next] == NONE && openSets(n, EMPTY_SET) != 0) {
                         keepStep(state, next, which, n);
                         queue[queued] = next;
                         queued++;
@@ -1584,7 +1607,8 @@ public final class FirstComer {
             for (int i = 0; i < honestOnes && i < MOST_HONEST; i++) {
                 Deal deal = honest[i];
                 if (deal != null && deal.canBe(village, real)) {
-                    judge.ask(real, deal);
+                    judge.settle(real, deal.parcel, deal.from);
+                    judge.ask(deal);
                     sets = judge.openSets(sets, EVERYBODY);
                 }
             }
@@ -1603,8 +1627,8 @@ public final class FirstComer {
                 reached[state] &= ~sly;
                 if (reached[state] != 0) {
                     ways.place(state);
-                    int all = ways.left(state, 0);
-                    sly |= ways.openSets(0, all, reached[state]);
+                    ways.turnTo(0);
+                    sly |= ways.openSets(ways.left(state, 0), reached[state]);
                     reached[state] &= ~sly;
                     spread(state);
                 }
@@ -1614,10 +1638,11 @@ public final class FirstComer {
 
         private void spread(int state) {
             for (int which = 0; which < 2; which++) {
+                ways.turnTo(which);
                 int most = ways.left(state, which) - (which == 0 ? 1 : 0);
                 for (int n = 1; n <= most; n++) {
                     int next = ways.behind(state, which, n);
-                    reached[next] |= ways.openSets(which, n, reached[state] & ~reached[next]);
+                    reached[next] |= ways.openSets(n, reached[state] & ~reached[next]);
                 }
             }
         }
@@ -1734,9 +1759,10 @@ public final class FirstComer {
         }
 
         private boolean sells(int parcel) {
+            judge.settle(trial, parcel, sellers[parcel]);
             for (int form = 0; form < FORMS; form++) {
                 deal.tellEach(parcel, sellers[parcel], stranger, WHOLE, form, each);
-                judge.ask(trial, deal);
+                judge.ask(deal);
                 if (judge.openSets(EMPTY_SET, village.caring) != 0) {
                     return true;
                 }
