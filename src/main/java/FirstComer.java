@@ -619,8 +619,10 @@ public final class FirstComer {
                     return held.holders[parcel];
                 case WHO_SIDE:
                     return held.holdersOf(besides[parcel]);
-                default:
+                case WHO_WATER:
                     return held.holdersOf(waters[parcel]);
+                default:
+                    return 0;
             }
         }
 
@@ -633,8 +635,10 @@ public final class FirstComer {
                     return held.of(parcel, person);
                 case WHO_SIDE:
                     return held.sumOf(besides[parcel], person);
-                default:
+                case WHO_WATER:
                     return held.sumOf(waters[parcel], person);
+                default:
+                    return 0;
             }
         }
     }
