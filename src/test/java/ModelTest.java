@@ -5,10 +5,12 @@ import java.util.NoSuchElementException;
 /** Long rows of calls, each answered by FirstComer and by the plain Model alike. */
 public final class ModelTest {
     private static final long THROWN = Long.MIN_VALUE;
+    private static final int NEVER = Integer.MIN_VALUE;
     private final Laws dice;
     private final FirstComer x = new FirstComer();
     private final Model m = new Model();
     private final List<String> told = new ArrayList<>();
+    private final int[] asked = {NEVER, 0, 0, 0, 0};
     private final int kind;
     private int calls;
     private boolean wrong;
@@ -316,11 +318,19 @@ public final class ModelTest {
         }
     }
 
+    /** Often the same question again, for what is kept of an answer must go with what has changed. */
     private void ways(int roll) {
-        int p = parcel();
-        int o = seller(p);
-        int s = person();
-        int e = each();
+        if (asked[0] == NEVER || dice.chance(50)) {
+            asked[0] = parcel();
+            asked[1] = seller(asked[0]);
+            asked[2] = person();
+            asked[3] = each();
+            asked[4] = dice.chance(5) ? dice.below(20) - 5 : 1 + dice.below(9);
+        }
+        int p = asked[0];
+        int o = asked[1];
+        int s = asked[2];
+        int e = asked[3];
         String args = "(" + p + ", " + o + ", " + s + ", " + e;
         if (roll < 90) {
             int length = m.sly(p, o, s, e);
@@ -331,7 +341,7 @@ public final class ModelTest {
                 }
             }
         } else if (roll < 95) {
-            int y = dice.chance(5) ? dice.below(20) - 5 : 1 + dice.below(9);
+            int y = asked[4];
             for (int what = 0; what < 3; what++) {
                 due("far(" + s + ", " + y + ", " + e + ", " + what + ")", x.far(s, y, e, what), m.far(s, y, e, what));
             }

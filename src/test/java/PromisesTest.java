@@ -41,7 +41,9 @@ public final class PromisesTest {
         parting();
         slyRows();
         slyWithOther();
+        slyAgain();
         howFar();
+        farAgain();
         honestOnes();
         mending();
         marks();
@@ -949,6 +951,83 @@ public final class PromisesTest {
         due("the other one's row", y.sly(1, 0, 5, 1), 1);
     }
 
+    /** What is told again must be what is so now, whatever changed it. */
+    private static void slyAgain() {
+        promise = 25;
+        FirstComer x = village(3, "first side on sale gift swap within 1 when not (day=3) and not need;first water on sale gift swap within 1;first kin on sale gift swap within 1 when degree=1;");
+        due("open", x.sly(0, 0, 5, 1), 1);
+        x.beside(0, 1, 0);
+        due("a neighbour", x.sly(0, 0, 5, 1), -1);
+        x.need(1, true);
+        due("he needs", x.sly(0, 0, 5, 1), 1);
+        x.need(1, false);
+        due("he needs no more", x.sly(0, 0, 5, 1), -1);
+        x.days(3);
+        due("day 3", x.sly(0, 0, 5, 1), 1);
+        x.water(0, 2);
+        due("by water", x.sly(0, 0, 5, 1), -1);
+        x.part(2, 2, 0, 12);
+        due("the seller's own", x.sly(0, 0, 5, 1), 1);
+        x.kin(0, 4, 1);
+        due("kin", x.sly(0, 0, 5, 1), -1);
+        x.kin(0, 4, 2);
+        due("kin further off", x.sly(0, 0, 5, 1), 1);
+        x.mark(0, false);
+        x.days(1);
+        due("day 4", x.sly(0, 0, 5, 1), -1);
+        due("of the other parcel", x.sly(2, 0, 5, 1), 1);
+        x.mark(0, true);
+        due("back on day 3", x.sly(0, 0, 5, 1), 1);
+        x.pass(2, 0, 8, 12, SALE, 0, 0);
+        due("water again", x.sly(0, 0, 5, 1), -1);
+        law(x, "first kin on sale within 1;first side on sale gift swap within 1 when owns=1;");
+        due("another law", x.sly(0, 0, 5, 1), -1);
+        x.parcel(7, 1);
+        due("the neighbour owns two", x.sly(0, 0, 5, 1), 1);
+        due("by a gift", x.slyRow(0, 0, 5, 1, 0, 2), GIFT);
+        law(x, "first side on sale gift swap within 1 when holds=0 and owns=1;first kin on sale gift within 1;");
+        due("by a swap", x.slyRow(0, 0, 5, 1, 0, 2), SWAP);
+        FirstComer y = village(2, "first side on sale within 9;first share on sale gift swap within 1;");
+        y.beside(1, 0, 0);
+        y.pass(1, 1, 9, 5, SALE, 3, 3);
+        due("open to a sharer", y.sly(1, 1, 9, 1), 1);
+        due("by a gift", y.slyRow(1, 1, 9, 1, 0, 2), GIFT);
+        due("claimed", y.claim(0, 0, 3), 0);
+        due("a neighbour who shares", y.sly(1, 1, 9, 1), -1);
+        due("each of them asked in turn", y.sly(1, 1, 0, 1), 1);
+        due("each of them asked in turn", y.sly(1, 1, 9, 1), -1);
+        due("each of them asked in turn", y.sly(1, 0, 1, 1), 1);
+    }
+
+    private static void farAgain() {
+        promise = 27;
+        FirstComer x = village(3, "first kin on sale gift swap within 1 when day=2 or 2<owns;first side on sale gift swap within 1 when not need;");
+        farIs(x, 9, 2, 1, 2, 2, 3);
+        x.kin(0, 5, 1);
+        farIs(x, 9, 2, 1, 2, 2, 3);
+        x.days(2);
+        farIs(x, 9, 2, 1, 2, 2, 6);
+        x.care(5, false);
+        farIs(x, 9, 2, 1, 2, 2, 3);
+        x.beside(0, 2, 3);
+        farIs(x, 9, 2, 1, 1, 1, 2);
+        x.need(0, true);
+        farIs(x, 9, 2, 1, 2, 2, 5);
+        x.parcel(3, 9);
+        farIs(x, 9, 2, 1, 3, 2, 13);
+        x.mark(0, false);
+        x.pass(3, 9, 1, 2, SALE, 0, 0);
+        farIs(x, 9, 2, 1, 2, 2, 5);
+        x.mark(0, true);
+        farIs(x, 9, 2, 1, 3, 2, 13);
+        x.part(1, 1, 4, 1);
+        farIs(x, 9, 3, 1, 3, 2, 13);
+        law(x, "");
+        farIs(x, 9, 1, 1, 2, 1, 9);
+        x.part(1, 4, 1, 1);
+        farIs(x, 9, 3, 1, 4, 3, 15);
+    }
+
     private static void farIs(FirstComer x, int stranger, int years, int each, int... want) {
         for (int what = 0; what < want.length; what++) {
             due("far(" + stranger + ", " + years + ", " + each + ", " + what + ")", x.far(stranger, years, each, what), want[what]);
@@ -1055,6 +1134,13 @@ public final class PromisesTest {
         mendedIs(x, 1, -1, -1);
         law(x, "maybe first side on gift within 1;maybe first side on swap within 1;maybe first side on sale within 1;maybe free when 1;maybe first kin on sale within 1;maybe first side on gift within 1;");
         mendedIs(x, 1, 3, 7);
+        law(x, "maybe first share on sale gift swap within 1;first side on sale gift swap within 1;maybe first water on sale within 1;");
+        mendedIs(x, 1, 0, 0);
+        x.days(7);
+        law(x, "maybe first side on sale gift swap within 1 when day=7;maybe first side on sale gift swap within 1;");
+        mendedIs(x, 1, 1, 1);
+        x.days(1);
+        mendedIs(x, 1, 1, 2);
         law(x, "maybe first share on sale gift swap within 1;first side on sale gift swap within 1;maybe first water on sale within 1;");
         mendedIs(x, 1, 0, 0);
         due("what 2", x.mended(0, 0, 5, 1, 2), -1);
