@@ -23,6 +23,7 @@ public final class PromisesTest {
         soundLaws();
         faults();
         tooMany();
+        manyLaws();
         nesting();
         expressions();
         facts();
@@ -42,6 +43,7 @@ public final class PromisesTest {
         slyRows();
         slyWithOther();
         slyAgain();
+        longestRow();
         howFar();
         farAgain();
         honestOnes();
@@ -358,6 +360,16 @@ public final class PromisesTest {
         lawIs("free when n # 1;", 1, 12);
         lawIs("free when N;", 1, 10);
         lawIs("free when n2;", 1, 11);
+        lawIs("free when nz;", 1, 10);
+        lawIs("free when an;", 1, 10);
+        lawIs("free when n/n;", 1, 11);
+        lawIs("free when {n;", 1, 10);
+        lawIs("free when `n;", 1, 10);
+        lawIs("first first on sale", 1, 6);
+        lawIs("first day on sale", 1, 6);
+        lawIs("first kin on need", 1, 13);
+        lawIs("first kin on has", 1, 13);
+        lawIs("first kin on sale need within", 1, 18);
         lawIs("free when kin;", 1, 10);
         lawIs("free when told;", 1, 10);
         lawIs("free;", 1, 4);
@@ -377,6 +389,37 @@ public final class PromisesTest {
         lawIs("firstkin on sale within 1;", 1, 0);
         lawIs("first kin on sale within 1 when 2:3;", 1, 33);
         lawIs("first kin on sale within 1when 2,3;", 1, 32);
+    }
+
+    /** What an earlier tape held or an earlier law took up is gone. */
+    private static void manyLaws() {
+        promise = 11;
+        FirstComer x = village(2);
+        x.beside(0, 1, 0);
+        due("12 on the tape", law(x, "free when 12;"), 0);
+        due("1 at the end", law(x, "free when 1"), 1 + 16 * 11);
+        due("a long word on the tape", law(x, "free when nnnnnnnnnnnnnnnn"), 1 + 16 * 10);
+        due("n at the end", law(x, "free when n"), 1 + 16 * 11);
+        String long400 = "free when 0" + times(195, "*n") + ";";
+        for (int i = 0; i < 12; i++) {
+            due("a long one", law(x, long400 + "first side on sale within 1 when n=" + (i + 1) + ";"), 0);
+            due("not so", x.would(0, 0, 9, 12 - i, SALE, 1, 1), i + 1 == 12 - i ? 2 : 0);
+            due("so", x.would(0, 0, 9, i + 1, SALE, 1, 1), 2);
+        }
+        due("parts and price are told anew", law(x, "price paid;parts shares;"), 0);
+        due("parts and price are told anew", law(x, "price paid;parts shares;"), 0);
+        due("parts and price are told anew", law(x, "price paid;parts shares;"), 0);
+        due("without price it is told", law(x, ""), 0);
+        due("price told", x.look(x.pass(0, 0, 9, 1, SALE, 7, 3), 11), 7);
+        String full = "first side on sale within 1 when n=1" + times(480, "*1") + "  ;";
+        due("a tape that is full", feed(x, full), 999);
+        due("a tape that is full", feed(x, " "), 1000);
+        due("a tape that is full", x.law(), 0);
+        feed(x, "free when 1" + times(494, "+1") + "9");
+        due("a number at the very end", x.count(7), 1000);
+        due("a number at the very end", x.law(), 1 + 16 * 1000);
+        feed(x, "free when n" + times(494, "+n") + "n");
+        due("a word at the very end", x.law(), 1 + 16 * 998);
     }
 
     private static String times(int n, String text) {
@@ -997,6 +1040,35 @@ public final class PromisesTest {
         due("each of them asked in turn", y.sly(1, 1, 0, 1), 1);
         due("each of them asked in turn", y.sly(1, 1, 9, 1), -1);
         due("each of them asked in turn", y.sly(1, 0, 1, 1), 1);
+        due("another owner", y.sly(1, 1, 9, 1), -1);
+        due("another owner: he gets by the other parcel to be a neighbour", y.sly(1, 0, 9, 1), 2);
+        due("another parcel", y.sly(0, 0, 9, 1), 1);
+        due("another parcel", y.sly(0, 1, 9, 1), -1);
+        law(y, "first share on sale gift swap within 1 when gift or 12<price+n;");
+        due("another price", y.sly(1, 1, 9, 2), 2);
+        due("another price", y.sly(1, 1, 9, 0), 1);
+        due("another price", y.sly(1, 1, 9, 2), 2);
+    }
+
+    /** All 24 twelfths one by one: this parcel's last one must wait for all of the other one. */
+    private static void longestRow() {
+        FirstComer x = village(3, "first side on sale gift swap within 1 when keeps=0 and 0<estate;first kin on sale gift swap within 1 when 1<n;");
+        x.part(1, 1, 0, 12);
+        x.beside(0, 2, 0);
+        x.kin(0, 6, 1);
+        int[] row = new int[72];
+        for (int i = 0; i < 24; i++) {
+            row[3 * i] = i < 11 || i == 23 ? 0 : 1;
+            row[3 * i + 1] = 1;
+            row[3 * i + 2] = SALE;
+        }
+        rowIs(x, 0, 0, 5, 1, row);
+        due("far behind its end", x.slyRow(0, 0, 5, 1, Integer.MAX_VALUE, 0), -1);
+        promise = 29;
+        mendedIs(x, 1, -1, -1);
+        x.part(1, 0, 1, 1);
+        x.kin(0, 6, 0);
+        mendedIs(x, 1, -1, -1);
     }
 
     private static void farAgain() {
@@ -1026,6 +1098,17 @@ public final class PromisesTest {
         farIs(x, 9, 1, 1, 2, 1, 9);
         x.part(1, 4, 1, 1);
         farIs(x, 9, 3, 1, 4, 3, 15);
+        farIs(x, 8, 3, 1, 3, 3, 7);
+        farIs(x, 9, 3, 1, 4, 3, 15);
+        farIs(x, 9, 2, 1, 3, 2, 11);
+        // Who has sold his own stands there no more.
+        FirstComer y = village(2, "first side on sale gift swap within 1 when need and price<24;");
+        y.beside(0, 1, 0);
+        y.need(1, true);
+        farIs(y, 9, 1, 1, 1, 1, 2);
+        farIs(y, 9, 2, 1, 2, 2, 3);
+        farIs(y, 9, 1, 2, 1, 1, 1);
+        farIs(y, 9, 1, 1, 1, 1, 2);
     }
 
     private static void farIs(FirstComer x, int stranger, int years, int each, int... want) {
@@ -1152,7 +1235,32 @@ public final class PromisesTest {
         due("holds none", x.mended(0, 1, 5, 1, 0), -1);
         due("each 801", x.mended(0, 0, 5, 801, 0), -1);
         due("each -1", x.mended(0, 0, 5, -1, 0), -1);
+        law(x, "maybe first side on sale gift swap within 1 when price<12;maybe first side on sale gift within 1;");
+        mendedIs(x, 1, -1, -1);
+        mendedIs(x, 0, 1, 1);
+        mendedIs(x, 1, -1, -1);
+        due("another parcel", x.mended(2, 2, 5, 0, 0), -1);
+        due("this one", x.mended(0, 0, 5, 0, 0), 1);
+        due("another stranger", x.mended(0, 0, 1, 0, 0), -1);
+        due("of the side's parcel: another owner", x.mended(1, 1, 5, 0, 0), 1);
+        x.part(1, 1, 0, 11);
+        x.care(9, true);
+        due("no neighbour but himself", x.mended(1, 0, 5, 0, 0), -1);
+        due("another owner", x.mended(1, 3, 5, 0, 0), 1);
+        due("no neighbour but himself", x.mended(1, 0, 5, 0, 0), -1);
+        x.part(1, 0, 1, 11);
+        twoWays();
+        law(x, "maybe first share on sale gift swap within 1;first side on sale gift swap within 1;maybe first water on sale within 1;");
         due("what is maybe is not in force", x.would(0, 0, 5, 1, SALE, 1, 1), 2 + 8);
+    }
+
+    /** Each of two lines stops one of two ways to what the owner keeps; only both of them stop both. */
+    private static void twoWays() {
+        FirstComer x = village(1);
+        x.part(0, 0, 8, 9);
+        x.kin(0, 6, 1);
+        law(x, "first kin on sale gift swap within 1 when 2<n;maybe first kin on sale gift swap within 1 when n=1 and keeps=2;maybe first kin on sale gift swap within 1 when n=2 and keeps=1;");
+        mendedIs(x, 1, 2, 3);
     }
 
     private static void marks() {
@@ -1209,6 +1317,20 @@ public final class PromisesTest {
         yes("back", x.mark(3, true));
         no("laid anew behind it: gone", x.mark(0, true));
         yes("still there", x.mark(3, true));
+        // A passing that takes the place of one that is gone begins anew.
+        int p = x.pass(0, 9, 8, 6, SALE, 2, 1);
+        yes("heard", x.hears(p, 1, x.count(1)));
+        yes("waived", x.waive(p, 1));
+        yes("proven", x.truly(p, 0));
+        yes("back", x.mark(3, true));
+        due("its number again", x.pass(0, 9, 8, 5, SALE, 3, 2), p);
+        due("not heard", x.till(p, 1), -1);
+        due("paid", x.look(p, 6), 2);
+        due("not waived", x.claim(p, 1, 2), 0);
+        yes("back", x.mark(3, true));
+        due("its number again", x.pass(0, 9, 8, 6, GIFT, 0, 0), p);
+        due("not taken", x.look(p, 10), -1);
+        due("nobody may", x.may(p, 1), -1);
     }
 
     private static void counts() {
