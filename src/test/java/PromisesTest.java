@@ -1256,6 +1256,12 @@ public final class PromisesTest {
 
     /** Each of two lines stops one of two ways to what the owner keeps; only both of them stop both. */
     private static void twoWays() {
+        FirstComer y = village(3, "maybe first side on sale gift swap within 1;");
+        y.beside(0, 2, 0);
+        y.part(1, 1, 0, 12);
+        due("this parcel", y.mended(0, 0, 5, 1, 0), 1);
+        due("another one of the same owner", y.mended(1, 0, 5, 1, 0), -1);
+        due("this parcel", y.mended(0, 0, 5, 1, 0), 1);
         FirstComer x = village(1);
         x.part(0, 0, 8, 9);
         x.kin(0, 6, 1);
