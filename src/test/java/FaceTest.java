@@ -82,6 +82,11 @@ public final class FaceTest {
         }
         for (Class<?> inside : FirstComer.class.getDeclaredClasses()) {
             yes(inside + " is static and hidden", Modifier.isStatic(inside.getModifiers()) && Modifier.isPrivate(inside.getModifiers()));
+            for (Method m : inside.getDeclaredMethods()) {
+                boolean borrowed = FACE.stream().anyMatch(face -> face.contains(" " + m.getName() + "("));
+                yes(m + " does not bear a public one's name", !borrowed);
+                yes(m + " takes seven at most", m.getParameterCount() <= 7);
+            }
         }
     }
 
