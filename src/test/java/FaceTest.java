@@ -98,7 +98,7 @@ public final class FaceTest {
         for (int i = 0; i < 12 && seed % 3 != 0; i++) {
             x.parcel(i, dice.below(16));
         }
-        PromisesTest.law(x, dice.law(5));
+        Told.law(x, dice.law(5));
         for (int call = 0; call < 450; call++) {
             Method m = all[dice.below(all.length)];
             if (m.getDeclaringClass() != FirstComer.class) {

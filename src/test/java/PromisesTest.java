@@ -1,10 +1,8 @@
-import java.util.NoSuchElementException;
-
 /** For each promise of the document: ordinary inputs, the edges that it names, and wrong inputs. */
 public final class PromisesTest {
-    private static final int SALE = 0;
-    private static final int GIFT = 1;
-    private static final int SWAP = 2;
+    private static final int SALE = Told.SALE;
+    private static final int GIFT = Told.GIFT;
+    private static final int SWAP = Told.SWAP;
     private static int passed;
     private static int failed;
     private static int promise;
@@ -73,50 +71,12 @@ public final class PromisesTest {
         due(what, got ? 1 : 0, 0);
     }
 
-    /** Packs a text into rows of 24 signs; a byte of 0 is left out by feed(). */
-    static int feed(FirstComer x, String text) {
-        int length = x.count(7);
-        for (int at = 0; at < text.length(); at += 24) {
-            long[] row = new long[3];
-            for (int i = 0; i < 24; i++) {
-                row[i / 8] = row[i / 8] << 8 | (at + i < text.length() ? text.charAt(at + i) : 0);
-            }
-            length = x.feed(row[0], row[1], row[2]);
-        }
-        return length;
-    }
-
-    static int law(FirstComer x, String text) {
-        feed(x, text);
-        return x.law();
-    }
-
     private static void lawIs(String text, int kind, int place) {
-        due("law() of <" + text + ">", law(new FirstComer(), text), kind + 16 * place);
-    }
-
-    /** So many parcels, the i-th of person i. */
-    private static FirstComer village(int parcels) {
-        FirstComer x = new FirstComer();
-        for (int i = 0; i < parcels; i++) {
-            x.parcel(i, i);
-        }
-        return x;
-    }
-
-    private static FirstComer village(int parcels, String law) {
-        FirstComer x = village(parcels);
-        due("law() of <" + law + ">", law(x, law), 0);
-        return x;
+        due("law() of <" + text + ">", Told.law(new FirstComer(), text), kind + 16 * place);
     }
 
     private static boolean lookThrows(FirstComer x, int passing, int what) {
-        try {
-            x.look(passing, what);
-            return false;
-        } catch (NoSuchElementException e) {
-            return true;
-        }
+        return Sheet.look(x, passing, what) == Sheet.THROWN;
     }
 
     private static void newObject() {
@@ -151,7 +111,7 @@ public final class PromisesTest {
 
     private static void parts() {
         promise = 3;
-        FirstComer x = village(1);
+        FirstComer x = Told.parcels(1);
         yes("5 go", x.part(0, 0, 1, 5));
         due("seller keeps", x.holds(0, 0), 7);
         due("other gets", x.holds(0, 1), 5);
@@ -172,7 +132,7 @@ public final class PromisesTest {
 
     private static void besides() {
         promise = 4;
-        FirstComer x = village(4);
+        FirstComer x = Told.parcels(4);
         yes("beside(0, 1, 3)", x.beside(0, 1, 3));
         no("it lies so already", x.beside(0, 1, 3));
         no("from the other one it is side 1", x.beside(1, 0, 1));
@@ -192,7 +152,7 @@ public final class PromisesTest {
 
     private static void waters() {
         promise = 5;
-        FirstComer x = village(3);
+        FirstComer x = Told.parcels(3);
         yes("water(0, 1)", x.water(0, 1));
         no("already", x.water(0, 1));
         no("already, the other way round", x.water(1, 0));
@@ -208,7 +168,7 @@ public final class PromisesTest {
 
     private static void kinship() {
         promise = 6;
-        FirstComer x = village(1, "first kin on sale within 1 when degree = 2;");
+        FirstComer x = Told.parcels(1, "first kin on sale within 1 when degree = 2;");
         yes("kin(0, 1, 1)", x.kin(0, 1, 1));
         due("degree 1", x.would(0, 0, 9, 1, SALE, 1, 1), 0);
         yes("kin(1, 0, 2)", x.kin(1, 0, 2));
@@ -228,7 +188,7 @@ public final class PromisesTest {
 
     private static void needs() {
         promise = 7;
-        FirstComer x = village(1, "first kin on sale within 1 when need;free when need;");
+        FirstComer x = Told.parcels(1, "first kin on sale within 1 when need;free when need;");
         x.kin(0, 1, 1);
         due("not at first", x.would(0, 0, 9, 1, SALE, 1, 1), 0);
         yes("need(1)", x.need(1, true));
@@ -244,7 +204,7 @@ public final class PromisesTest {
 
     private static void cares() {
         promise = 8;
-        FirstComer x = village(2, "first side on sale gift swap within 1;");
+        FirstComer x = Told.parcels(2, "first side on sale gift swap within 1;");
         x.beside(0, 1, 0);
         due("all care at first", x.far(5, 9, 0, 0), 0);
         yes("care(1, false)", x.care(1, false));
@@ -285,7 +245,7 @@ public final class PromisesTest {
         due("24 more", x.feed(0x2020202020202020L, 0x2020202020202020L, 0x2020202020202020L), 35);
         x.law();
         due("what reads it takes it", x.count(7), 0);
-        due("the highest byte of a first", law(x, "free when 1"), 1 + 16 * 11);
+        due("the highest byte of a first", Told.law(x, "free when 1"), 1 + 16 * 11);
         for (int i = 1; i <= 41; i++) {
             due("24 each", x.feed(0x2020202020202020L, 0x2020202020202020L, 0x2020202020202020L), 24 * i);
         }
@@ -311,8 +271,8 @@ public final class PromisesTest {
         lawIs("parts shares;price paid;", 0, 0);
         lawIs("price paid;free when price = paid;", 0, 0);
         lawIs("maybe first side on sale within 1;maybe free when 0;", 0, 0);
-        FirstComer x = village(1, "first kin on sale within 1;");
-        due("a fault leaves the one ahead", law(x, "free when 1; x"), 1 + 16 * 13);
+        FirstComer x = Told.parcels(1, "first kin on sale within 1;");
+        due("a fault leaves the one ahead", Told.law(x, "free when 1; x"), 1 + 16 * 13);
         due("lines in force", x.count(4), 1);
         x.kin(0, 1, 1);
         due("it is the law still", x.would(0, 0, 9, 1, SALE, 0, 0), 2);
@@ -394,60 +354,52 @@ public final class PromisesTest {
     /** What an earlier tape held or an earlier law took up is gone. */
     private static void manyLaws() {
         promise = 11;
-        FirstComer x = village(2);
+        FirstComer x = Told.parcels(2);
         x.beside(0, 1, 0);
-        due("12 on the tape", law(x, "free when 12;"), 0);
-        due("1 at the end", law(x, "free when 1"), 1 + 16 * 11);
-        due("a long word on the tape", law(x, "free when nnnnnnnnnnnnnnnn"), 1 + 16 * 10);
-        due("n at the end", law(x, "free when n"), 1 + 16 * 11);
-        String long400 = "free when 0" + times(195, "*n") + ";";
+        due("12 on the tape", Told.law(x, "free when 12;"), 0);
+        due("1 at the end", Told.law(x, "free when 1"), 1 + 16 * 11);
+        due("a long word on the tape", Told.law(x, "free when nnnnnnnnnnnnnnnn"), 1 + 16 * 10);
+        due("n at the end", Told.law(x, "free when n"), 1 + 16 * 11);
+        String long400 = "free when 0" + Told.times(195, "*n") + ";";
         for (int i = 0; i < 12; i++) {
-            due("a long one", law(x, long400 + "first side on sale within 1 when n=" + (i + 1) + ";"), 0);
+            due("a long one", Told.law(x, long400 + "first side on sale within 1 when n=" + (i + 1) + ";"), 0);
             due("not so", x.would(0, 0, 9, 12 - i, SALE, 1, 1), i + 1 == 12 - i ? 2 : 0);
             due("so", x.would(0, 0, 9, i + 1, SALE, 1, 1), 2);
         }
-        due("parts and price are told anew", law(x, "price paid;parts shares;"), 0);
-        due("parts and price are told anew", law(x, "price paid;parts shares;"), 0);
-        due("parts and price are told anew", law(x, "price paid;parts shares;"), 0);
-        due("without price it is told", law(x, ""), 0);
+        due("parts and price are told anew", Told.law(x, "price paid;parts shares;"), 0);
+        due("parts and price are told anew", Told.law(x, "price paid;parts shares;"), 0);
+        due("parts and price are told anew", Told.law(x, "price paid;parts shares;"), 0);
+        due("without price it is told", Told.law(x, ""), 0);
         due("price told", x.look(x.pass(0, 0, 9, 1, SALE, 7, 3), 11), 7);
-        String full = "first side on sale within 1 when n=1" + times(480, "*1") + "  ;";
-        due("a tape that is full", feed(x, full), 999);
-        due("a tape that is full", feed(x, " "), 1000);
+        String full = "first side on sale within 1 when n=1" + Told.times(480, "*1") + "  ;";
+        due("a tape that is full", Told.feed(x, full), 999);
+        due("a tape that is full", Told.feed(x, " "), 1000);
         due("a tape that is full", x.law(), 0);
-        feed(x, "free when 1" + times(494, "+1") + "9");
+        Told.feed(x, "free when 1" + Told.times(494, "+1") + "9");
         due("a number at the very end", x.count(7), 1000);
         due("a number at the very end", x.law(), 1 + 16 * 1000);
-        feed(x, "free when n" + times(494, "+n") + "n");
+        Told.feed(x, "free when n" + Told.times(494, "+n") + "n");
         due("a word at the very end", x.law(), 1 + 16 * 998);
-    }
-
-    private static String times(int n, String text) {
-        StringBuilder all = new StringBuilder();
-        for (int i = 0; i < n; i++) {
-            all.append(text);
-        }
-        return all.toString();
     }
 
     private static void tooMany() {
         promise = 11;
         String free = "free when 1;";
         String first = "first kin on sale within 1;";
-        lawIs(times(12, free), 0, 0);
-        lawIs(times(13, free), 5, 144);
-        lawIs(times(12, first) + "free x", 5, 12 * 27);
-        lawIs(times(12, free) + "first", 5, 144);
-        lawIs(times(12, free) + " firs", 1, 145);
-        lawIs(times(12, free) + "maybe " + free, 0, 0);
-        lawIs(times(12, free) + times(6, "maybe " + free), 0, 0);
-        lawIs(times(6, "maybe " + free), 0, 0);
-        lawIs(times(7, "maybe " + free), 5, 6 * 18);
-        lawIs(times(6, "maybe " + free) + "maybe price", 5, 6 * 18);
-        lawIs(times(6, "maybe " + free) + times(13, free), 5, 6 * 18 + 12 * 12);
-        lawIs(times(12, free) + "price paid;parts heads;", 0, 0);
+        lawIs(Told.times(12, free), 0, 0);
+        lawIs(Told.times(13, free), 5, 144);
+        lawIs(Told.times(12, first) + "free x", 5, 12 * 27);
+        lawIs(Told.times(12, free) + "first", 5, 144);
+        lawIs(Told.times(12, free) + " firs", 1, 145);
+        lawIs(Told.times(12, free) + "maybe " + free, 0, 0);
+        lawIs(Told.times(12, free) + Told.times(6, "maybe " + free), 0, 0);
+        lawIs(Told.times(6, "maybe " + free), 0, 0);
+        lawIs(Told.times(7, "maybe " + free), 5, 6 * 18);
+        lawIs(Told.times(6, "maybe " + free) + "maybe price", 5, 6 * 18);
+        lawIs(Told.times(6, "maybe " + free) + Told.times(13, free), 5, 6 * 18 + 12 * 12);
+        lawIs(Told.times(12, free) + "price paid;parts heads;", 0, 0);
         FirstComer x = new FirstComer();
-        law(x, times(3, free) + times(2, "maybe " + free) + first);
+        Told.law(x, Told.times(3, free) + Told.times(2, "maybe " + free) + first);
         due("in force", x.count(4), 4);
         due("with maybe", x.count(5), 2);
     }
@@ -471,7 +423,7 @@ public final class PromisesTest {
 
     /** Whether a condition is so at a sale of 3 twelfths of 12 at 20, paid 7, to one who has nothing. */
     private static void so(String condition, boolean is) {
-        FirstComer x = village(2, "first side on sale within 1 when " + condition + ";");
+        FirstComer x = Told.parcels(2, "first side on sale within 1 when " + condition + ";");
         x.beside(0, 1, 0);
         due(condition, x.would(0, 0, 9, 3, SALE, 20, 7), is ? 2 : 0);
     }
@@ -522,7 +474,7 @@ public final class PromisesTest {
         so("owns = 1", true);
         so("degree", false);
         so("day", false);
-        FirstComer x = village(3, "first kin on gift swap within 1 when estate = 21 and keeps = 9 and has = 2 and holds = 2 and owns = 1 and degree = 3 and day = 4;");
+        FirstComer x = Told.parcels(3, "first kin on gift swap within 1 when estate = 21 and keeps = 9 and has = 2 and holds = 2 and owns = 1 and degree = 3 and day = 4;");
         x.part(1, 1, 0, 12);
         x.part(2, 2, 9, 1);
         x.part(1, 0, 9, 1);
@@ -540,7 +492,7 @@ public final class PromisesTest {
 
     private static void holding() {
         promise = 12;
-        FirstComer x = village(1);
+        FirstComer x = Told.parcels(1);
         x.part(0, 0, 15, 4);
         due("holds(0, 0)", x.holds(0, 0), 8);
         due("holds(0, 15)", x.holds(0, 15), 4);
@@ -554,7 +506,7 @@ public final class PromisesTest {
 
     private static void standing() {
         promise = 13;
-        FirstComer x = village(3);
+        FirstComer x = Told.parcels(3);
         x.beside(0, 1, 2);
         x.water(0, 2);
         x.kin(0, 5, 3);
@@ -577,7 +529,7 @@ public final class PromisesTest {
 
     private static void passing() {
         promise = 14;
-        FirstComer x = village(1);
+        FirstComer x = Told.parcels(1);
         due("the first", x.pass(0, 0, 1, 5, SALE, 9999, 0), 0);
         due("seller", x.holds(0, 0), 7);
         due("buyer", x.holds(0, 1), 5);
@@ -611,7 +563,7 @@ public final class PromisesTest {
 
     private static void woulds() {
         promise = 15;
-        FirstComer x = village(4, "first side on sale within 1;first water on sale gift within 2 when 3<n;first share on swap within 3;");
+        FirstComer x = Told.parcels(4, "first side on sale within 1;first water on sale gift within 2 when 3<n;first share on swap within 3;");
         x.beside(0, 1, 0);
         x.water(0, 2);
         x.part(0, 0, 15, 1);
@@ -633,7 +585,7 @@ public final class PromisesTest {
 
     private static void ranksAndFree() {
         promise = 15;
-        FirstComer x = village(3, "maybe first share on sale within 1;free when 100<price;first kin on sale within 1;first side on sale within 2;first water on sale within 3;");
+        FirstComer x = Told.parcels(3, "maybe first share on sale within 1;free when 100<price;first kin on sale within 1;first side on sale within 2;first water on sale within 3;");
         x.kin(0, 4, 1);
         x.kin(0, 5, 1);
         x.beside(0, 1, 0);
@@ -653,12 +605,12 @@ public final class PromisesTest {
         due("free", x.look(q, 8), 1);
         due("nobody may", x.may(q, 4), -1);
         due("the buyer has his rank all the same", x.look(q, 9), 2);
-        FirstComer y = village(2, "first kin on sale within 1 when 5<n;first side on sale within 2;");
+        FirstComer y = Told.parcels(2, "first kin on sale within 1 when 5<n;first side on sale within 2;");
         y.beside(0, 1, 0);
         y.kin(0, 1, 1);
         due("the first line that holds", y.may(y.pass(0, 0, 9, 1, SALE, 1, 1), 1), 1);
         due("the first line that holds", y.may(y.pass(0, 0, 9, 6, SALE, 1, 1), 1), 0);
-        FirstComer z = village(2, "first share on sale within 1;");
+        FirstComer z = Told.parcels(2, "first share on sale within 1;");
         due("the seller has none", z.would(0, 0, 9, 1, SALE, 1, 1), 0);
         due("the buyer who shares: none", shared(z), 0);
     }
@@ -671,14 +623,14 @@ public final class PromisesTest {
 
     private static void looking() {
         promise = 16;
-        FirstComer x = village(1, "first kin on sale within 1;");
+        FirstComer x = Told.parcels(1, "first kin on sale within 1;");
         x.days(7);
         int p = x.pass(0, 0, 3, 5, SWAP, 30, 20);
         int[] want = {0, 0, 3, 5, SWAP, 30, 20, 7, 0, -1, -1, 30};
         for (int what = 0; what < want.length; what++) {
             due("look(0, " + what + ")", x.look(p, what), want[what]);
         }
-        law(x, "price paid;first kin on sale within 1;");
+        Told.law(x, "price paid;first kin on sale within 1;");
         due("the law of then", x.look(p, 11), 30);
         int q = x.pass(0, 0, 3, 5, SALE, 30, 20);
         due("price paid", x.look(q, 11), 20);
@@ -692,7 +644,7 @@ public final class PromisesTest {
 
     private static void mayAndOrder() {
         promise = 17;
-        FirstComer x = village(4, "first water on sale within 1;first side on sale within 1;first kin on sale within 1;");
+        FirstComer x = Told.parcels(4, "first water on sale within 1;first side on sale within 1;first kin on sale within 1;");
         x.water(0, 3);
         x.beside(0, 2, 0);
         x.beside(0, 1, 0);
@@ -709,7 +661,7 @@ public final class PromisesTest {
         due("no such one", x.may(p, -1), -1);
         due("no such passing", x.may(p + 1, 3), -1);
         due("no such passing", x.may(-1, 3), -1);
-        law(x, "");
+        Told.law(x, "");
         due("by the law of then", x.may(p, 3), 0);
         promise = 18;
         int[] want = {3, 1, 2, 7, -1};
@@ -724,7 +676,7 @@ public final class PromisesTest {
     }
 
     private static FirstComer heardOf() {
-        FirstComer x = village(3, "first kin on sale within 3;first side on sale within 0;");
+        FirstComer x = Told.parcels(3, "first kin on sale within 3;first side on sale within 0;");
         x.kin(0, 1, 1);
         x.beside(0, 2, 1);
         x.days(10);
@@ -765,7 +717,7 @@ public final class PromisesTest {
         due("no such one", x.till(0, 16), -1);
         due("no such passing", x.till(1, 1), -1);
         due("no such passing", x.till(-1, 1), -1);
-        law(x, "first kin on sale within 9;");
+        Told.law(x, "first kin on sale within 9;");
         due("by the law of then", x.till(0, 1), 21);
         x.days(1);
         due("in time on the last day", x.claim(0, 1, 0), 4);
@@ -792,7 +744,7 @@ public final class PromisesTest {
 
     private static void proving() {
         promise = 22;
-        FirstComer x = village(1, "price paid;first kin on sale gift within 1 when paid = 8;");
+        FirstComer x = Told.parcels(1, "price paid;first kin on sale gift within 1 when paid = 8;");
         x.kin(0, 1, 1);
         x.pass(0, 0, 9, 6, SALE, 10, 8);
         x.pass(0, 0, 9, 6, GIFT, 0, 0);
@@ -812,7 +764,7 @@ public final class PromisesTest {
         due("enough", x.claim(0, 1, 9999), 0);
         no("taken", x.truly(0, 5));
         due("paid stays", x.look(0, 6), 9999);
-        FirstComer y = village(1, "first kin on sale within 1;");
+        FirstComer y = Told.parcels(1, "first kin on sale within 1;");
         y.kin(0, 1, 1);
         y.pass(0, 0, 9, 6, SALE, 10, 8);
         yes("truly", y.truly(0, 1));
@@ -843,7 +795,7 @@ public final class PromisesTest {
         due("taken by", x.look(0, 10), 2);
         due("taken", x.claim(0, 2, 5), 6);
         due("taken, for all", x.claim(0, 8, 0), 6);
-        FirstComer y = village(2, "first side on gift within 0;");
+        FirstComer y = Told.parcels(2, "first side on gift within 0;");
         y.beside(0, 1, 0);
         y.pass(0, 0, 9, 5, GIFT, 0, 0);
         y.days(1000);
@@ -853,7 +805,7 @@ public final class PromisesTest {
 
     private static void parting() {
         promise = 24;
-        FirstComer x = village(4, "parts shares;first side on sale within 1;first share on gift within 1;first water on swap within 1;");
+        FirstComer x = Told.parcels(4, "parts shares;first side on sale within 1;first share on gift within 1;first water on swap within 1;");
         x.beside(0, 1, 0);
         x.beside(0, 1, 1);
         x.beside(0, 2, 2);
@@ -873,13 +825,13 @@ public final class PromisesTest {
         due("4 * 2 / 8 and what is left", x.parted(q, 5), 2);
         due("4 * 1 / 8", x.parted(q, 6), 0);
         due("4 * 5 / 8", x.parted(q, 9), 2);
-        law(x, "");
+        Told.law(x, "");
         due("by the law of then", x.parted(q, 9), 2);
         x.part(0, 5, 7, 2);
         due("by what they held then", x.parted(q, 5), 2);
         due("no such passing", x.parted(2, 1), -1);
         due("no such passing", x.parted(-1, 1), -1);
-        FirstComer y = village(1, "parts shares;first kin on sale within 1;first share on sale within 1;");
+        FirstComer y = Told.parcels(1, "parts shares;first kin on sale within 1;first share on sale within 1;");
         y.kin(0, 3, 1);
         y.kin(0, 4, 3);
         y.kin(0, 5, 1);
@@ -890,7 +842,7 @@ public final class PromisesTest {
         due("kin", y.parted(r, 4), 4);
         due("kin", y.parted(r, 5), 3);
         due("another rank gets all", y.parted(r, 6), 11);
-        FirstComer z = village(1, "first kin on sale within 1;");
+        FirstComer z = Told.parcels(1, "first kin on sale within 1;");
         for (int i = 1; i <= 5; i++) {
             z.kin(0, i, 1);
         }
@@ -899,7 +851,7 @@ public final class PromisesTest {
         for (int i = 0; i < heads.length; i++) {
             due("by heads", z.parted(s, i), heads[i]);
         }
-        FirstComer w = village(3, "first water on sale within 1;parts shares;");
+        FirstComer w = Told.parcels(3, "first water on sale within 1;parts shares;");
         w.water(0, 1);
         w.water(0, 2);
         w.part(2, 2, 1, 6);
@@ -923,31 +875,31 @@ public final class PromisesTest {
     }
 
     private static void slyRows() {
-        FirstComer x = village(2);
+        FirstComer x = Told.parcels(2);
         x.beside(0, 1, 0);
         rowIs(x, 0, 0, 5, 0, 0, 12, SALE);
-        law(x, "first side on sale swap within 1;");
+        Told.law(x, "first side on sale swap within 1;");
         rowIs(x, 0, 0, 5, 800, 0, 12, GIFT);
-        law(x, "first side on sale gift within 1;");
+        Told.law(x, "first side on sale gift within 1;");
         rowIs(x, 0, 0, 5, 800, 0, 12, SWAP);
-        law(x, "first side on sale gift swap within 1;");
+        Told.law(x, "first side on sale gift swap within 1;");
         rowIs(x, 0, 0, 5, 1);
         rowIs(x, 0, 0, 1, 1, 0, 12, SALE);
-        law(x, "first side on sale gift swap within 1;first share on sale gift swap within 1;");
+        Told.law(x, "first side on sale gift swap within 1;first share on sale gift swap within 1;");
         x.part(0, 0, 5, 1);
         rowIs(x, 0, 0, 5, 1);
-        law(x, "first share on sale gift swap within 1;first side on sale gift swap within 1;");
+        Told.law(x, "first share on sale gift swap within 1;first side on sale gift swap within 1;");
         rowIs(x, 0, 0, 5, 1, 0, 11, SALE);
-        law(x, "first side on sale gift swap within 1 when 5<n;");
+        Told.law(x, "first side on sale gift swap within 1 when 5<n;");
         rowIs(x, 0, 0, 5, 1, 0, 1, SALE, 0, 5, SALE, 0, 5, SALE);
-        law(x, "first side on sale gift swap within 1 when 3<n and keeps<5;");
+        Told.law(x, "first side on sale gift swap within 1 when 3<n and keeps<5;");
         rowIs(x, 0, 0, 5, 1, 0, 5, SALE, 0, 3, SALE, 0, 3, SALE);
-        law(x, "first side on sale swap within 1 when 10<price;first side on gift within 1 when not (n=9);");
+        Told.law(x, "first side on sale swap within 1 when 10<price;first side on gift within 1 when not (n=9);");
         rowIs(x, 0, 0, 5, 5, 0, 2, SALE, 0, 9, GIFT);
         rowIs(x, 0, 0, 5, 6, 0, 1, SALE, 0, 1, SALE, 0, 9, GIFT);
         rowIs(x, 0, 0, 5, 11);
         rowIs(x, 0, 0, 5, 0, 0, 11, SALE);
-        law(x, "first side on sale gift swap within 1 when 1<n;");
+        Told.law(x, "first side on sale gift swap within 1 when 1<n;");
         due("eleven ones", x.sly(0, 0, 5, 1), 11);
         promise = 25;
         due("not told", x.sly(2, 0, 5, 1), -1);
@@ -968,25 +920,25 @@ public final class PromisesTest {
     }
 
     private static void slyWithOther() {
-        FirstComer x = village(4);
+        FirstComer x = Told.parcels(4);
         x.kin(0, 7, 1);
         x.parcel(9, 0);
         x.parcel(6, 0);
-        law(x, "first kin on sale gift swap within 1 when not has;");
+        Told.law(x, "first kin on sale gift swap within 1 when not has;");
         rowIs(x, 0, 0, 5, 1);
-        law(x, "first kin on sale gift swap within 1 when not has and not (n=2);");
+        Told.law(x, "first kin on sale gift swap within 1 when not has and not (n=2);");
         rowIs(x, 0, 0, 5, 1, 0, 2, SALE, 0, 10, SALE);
         // Now what the owner holds beside the parcel that goes tells this one from the other one.
         x.part(6, 0, 1, 1);
-        law(x, "first kin on sale gift swap within 1 when not has and not (estate-keeps=24);");
+        Told.law(x, "first kin on sale gift swap within 1 when not has and not (estate-keeps=24);");
         rowIs(x, 0, 0, 5, 1, 6, 1, SALE, 0, 12, SALE);
-        law(x, "first kin on sale swap within 1;first kin on gift within 1 when not has and not (estate-keeps=24 and n=3);");
+        Told.law(x, "first kin on sale swap within 1;first kin on gift within 1 when not has and not (estate-keeps=24 and n=3);");
         rowIs(x, 0, 0, 5, 1, 6, 3, GIFT, 0, 12, GIFT);
         rowIs(x, 9, 0, 5, 1);
-        law(x, "first kin on sale gift swap within 1 when 23<estate-keeps or 1<n and not (estate-keeps=12);");
+        Told.law(x, "first kin on sale gift swap within 1 when 23<estate-keeps or 1<n and not (estate-keeps=12);");
         due("a row needs the other one's twelfths gone", x.sly(0, 0, 5, 1), 12);
         promise = 25;
-        FirstComer y = village(2, "first kin on sale gift swap within 1 when estate<12;");
+        FirstComer y = Told.parcels(2, "first kin on sale gift swap within 1 when estate<12;");
         y.kin(0, 7, 1);
         due("of one parcel", y.sly(0, 0, 5, 1), -1);
         y.part(1, 1, 0, 12);
@@ -997,7 +949,7 @@ public final class PromisesTest {
     /** What is told again must be what is so now, whatever changed it. */
     private static void slyAgain() {
         promise = 25;
-        FirstComer x = village(3, "first side on sale gift swap within 1 when not (day=3) and not need;first water on sale gift swap within 1;first kin on sale gift swap within 1 when degree=1;");
+        FirstComer x = Told.parcels(3, "first side on sale gift swap within 1 when not (day=3) and not need;first water on sale gift swap within 1;first kin on sale gift swap within 1 when degree=1;");
         due("open", x.sly(0, 0, 5, 1), 1);
         x.beside(0, 1, 0);
         due("a neighbour", x.sly(0, 0, 5, 1), -1);
@@ -1023,14 +975,14 @@ public final class PromisesTest {
         due("back on day 3", x.sly(0, 0, 5, 1), 1);
         x.pass(2, 0, 8, 12, SALE, 0, 0);
         due("water again", x.sly(0, 0, 5, 1), -1);
-        law(x, "first kin on sale within 1;first side on sale gift swap within 1 when owns=1;");
+        Told.law(x, "first kin on sale within 1;first side on sale gift swap within 1 when owns=1;");
         due("another law", x.sly(0, 0, 5, 1), -1);
         x.parcel(7, 1);
         due("the neighbour owns two", x.sly(0, 0, 5, 1), 1);
         due("by a gift", x.slyRow(0, 0, 5, 1, 0, 2), GIFT);
-        law(x, "first side on sale gift swap within 1 when holds=0 and owns=1;first kin on sale gift within 1;");
+        Told.law(x, "first side on sale gift swap within 1 when holds=0 and owns=1;first kin on sale gift within 1;");
         due("by a swap", x.slyRow(0, 0, 5, 1, 0, 2), SWAP);
-        FirstComer y = village(2, "first side on sale within 9;first share on sale gift swap within 1;");
+        FirstComer y = Told.parcels(2, "first side on sale within 9;first share on sale gift swap within 1;");
         y.beside(1, 0, 0);
         y.pass(1, 1, 9, 5, SALE, 3, 3);
         due("open to a sharer", y.sly(1, 1, 9, 1), 1);
@@ -1044,7 +996,7 @@ public final class PromisesTest {
         due("another owner: he gets by the other parcel to be a neighbour", y.sly(1, 0, 9, 1), 2);
         due("another parcel", y.sly(0, 0, 9, 1), 1);
         due("another parcel", y.sly(0, 1, 9, 1), -1);
-        law(y, "first share on sale gift swap within 1 when gift or 12<price+n;");
+        Told.law(y, "first share on sale gift swap within 1 when gift or 12<price+n;");
         due("another price", y.sly(1, 1, 9, 2), 2);
         due("another price", y.sly(1, 1, 9, 0), 1);
         due("another price", y.sly(1, 1, 9, 2), 2);
@@ -1052,7 +1004,7 @@ public final class PromisesTest {
 
     /** All 24 twelfths one by one: this parcel's last one must wait for all of the other one. */
     private static void longestRow() {
-        FirstComer x = village(3, "first side on sale gift swap within 1 when keeps=0 and 0<estate;first kin on sale gift swap within 1 when 1<n;");
+        FirstComer x = Told.parcels(3, "first side on sale gift swap within 1 when keeps=0 and 0<estate;first kin on sale gift swap within 1 when 1<n;");
         x.part(1, 1, 0, 12);
         x.beside(0, 2, 0);
         x.kin(0, 6, 1);
@@ -1073,7 +1025,7 @@ public final class PromisesTest {
 
     private static void farAgain() {
         promise = 27;
-        FirstComer x = village(3, "first kin on sale gift swap within 1 when day=2 or 2<owns;first side on sale gift swap within 1 when not need;");
+        FirstComer x = Told.parcels(3, "first kin on sale gift swap within 1 when day=2 or 2<owns;first side on sale gift swap within 1 when not need;");
         farIs(x, 9, 2, 1, 2, 2, 3);
         x.kin(0, 5, 1);
         farIs(x, 9, 2, 1, 2, 2, 3);
@@ -1094,7 +1046,7 @@ public final class PromisesTest {
         farIs(x, 9, 2, 1, 3, 2, 13);
         x.part(1, 1, 4, 1);
         farIs(x, 9, 3, 1, 3, 2, 13);
-        law(x, "");
+        Told.law(x, "");
         farIs(x, 9, 1, 1, 2, 1, 9);
         x.part(1, 4, 1, 1);
         farIs(x, 9, 3, 1, 4, 3, 15);
@@ -1102,7 +1054,7 @@ public final class PromisesTest {
         farIs(x, 9, 3, 1, 4, 3, 15);
         farIs(x, 9, 2, 1, 3, 2, 11);
         // Who has sold his own stands there no more.
-        FirstComer y = village(2, "first side on sale gift swap within 1 when need and price<24;");
+        FirstComer y = Told.parcels(2, "first side on sale gift swap within 1 when need and price<24;");
         y.beside(0, 1, 0);
         y.need(1, true);
         farIs(y, 9, 1, 1, 1, 1, 2);
@@ -1119,11 +1071,11 @@ public final class PromisesTest {
 
     private static void howFar() {
         promise = 27;
-        FirstComer x = village(4);
+        FirstComer x = Told.parcels(4);
         farIs(x, 9, 9, 0, 4, 4, 15);
         farIs(x, 9, 3, 0, 3, 3, 7);
         farIs(x, 2, 2, 0, 3, 2, 7);
-        law(x, "first side on sale gift swap within 1;");
+        Told.law(x, "first side on sale gift swap within 1;");
         x.beside(0, 1, 0);
         x.beside(1, 2, 0);
         farIs(x, 9, 9, 0, 1, 1, 8);
@@ -1149,18 +1101,18 @@ public final class PromisesTest {
         due("no such one", x.far(16, 1, 0, 0), -1);
         due("no such one", x.far(-1, 1, 0, 0), -1);
         due("nothing went", x.holds(3, 3), 12);
-        FirstComer y = village(2, "first side on sale swap gift within 1 when price<12;");
+        FirstComer y = Told.parcels(2, "first side on sale swap gift within 1 when price<12;");
         y.beside(0, 1, 0);
         farIs(y, 9, 1, 0, 0, 0, 0);
         farIs(y, 9, 1, 1, 1, 1, 1);
         farIs(y, 9, 1, 800, 1, 1, 1);
-        FirstComer z = village(12, "first side on sale swap gift within 1 when 0;");
+        FirstComer z = Told.parcels(12, "first side on sale swap gift within 1 when 0;");
         farIs(z, 15, 9, 3, 9, 9, 511);
     }
 
     private static void honestOnes() {
         promise = 28;
-        FirstComer x = village(1);
+        FirstComer x = Told.parcels(1);
         no("not told", x.honest(1, 0, 1, 1, SALE, 1));
         no("no such parcel", x.honest(-1, 0, 1, 1, SALE, 1));
         no("the same", x.honest(0, 1, 1, 1, SALE, 1));
@@ -1190,13 +1142,13 @@ public final class PromisesTest {
 
     private static void mending() {
         promise = 29;
-        FirstComer x = village(3);
+        FirstComer x = Told.parcels(3);
         x.beside(0, 1, 0);
-        law(x, "maybe first side on sale within 1;maybe first side on gift within 1;maybe first side on swap within 1;");
+        Told.law(x, "maybe first side on sale within 1;maybe first side on gift within 1;maybe first side on swap within 1;");
         mendedIs(x, 1, 3, 7);
-        law(x, "maybe first side on sale within 1;maybe first side on gift within 1;maybe first side on swap within 1;maybe first side on sale gift swap within 1;");
+        Told.law(x, "maybe first side on sale within 1;maybe first side on gift within 1;maybe first side on swap within 1;maybe first side on sale gift swap within 1;");
         mendedIs(x, 1, 1, 8);
-        law(x, "maybe first kin on sale within 1;maybe first side on swap gift sale within 1;maybe first side on sale gift swap within 1;");
+        Told.law(x, "maybe first kin on sale within 1;maybe first side on swap gift sale within 1;maybe first side on sale gift swap within 1;");
         mendedIs(x, 1, 1, 2);
         yes("an honest one that is far off", x.honest(2, 2, 6, 12, SALE, 5));
         mendedIs(x, 1, 1, 2);
@@ -1204,27 +1156,27 @@ public final class PromisesTest {
         mendedIs(x, 1, 1, 2);
         yes("an honest one that is stopped alike", x.honest(1, 1, 6, 12, SALE, 5));
         mendedIs(x, 1, -1, -1);
-        law(x, "maybe first side on sale gift swap within 1 when not (price=5);maybe first side on sale gift swap within 1;");
+        Told.law(x, "maybe first side on sale gift swap within 1 when not (price=5);maybe first side on sale gift swap within 1;");
         mendedIs(x, 1, 1, 1);
         mendedIs(x, 5, -1, -1);
-        law(x, "first side on sale gift swap within 1;maybe free when price=5;");
+        Told.law(x, "first side on sale gift swap within 1;maybe free when price=5;");
         mendedIs(x, 2, 1, 1);
         mendedIs(x, 5, -1, -1);
         x.part(1, 1, 3, 1);
         mendedIs(x, 2, 0, 0);
         mendedIs(x, 5, 0, 0);
-        law(x, "");
+        Told.law(x, "");
         mendedIs(x, 1, -1, -1);
-        law(x, "maybe first side on gift within 1;maybe first side on swap within 1;maybe first side on sale within 1;maybe free when 1;maybe first kin on sale within 1;maybe first side on gift within 1;");
+        Told.law(x, "maybe first side on gift within 1;maybe first side on swap within 1;maybe first side on sale within 1;maybe free when 1;maybe first kin on sale within 1;maybe first side on gift within 1;");
         mendedIs(x, 1, 3, 7);
-        law(x, "maybe first share on sale gift swap within 1;first side on sale gift swap within 1;maybe first water on sale within 1;");
+        Told.law(x, "maybe first share on sale gift swap within 1;first side on sale gift swap within 1;maybe first water on sale within 1;");
         mendedIs(x, 1, 0, 0);
         x.days(7);
-        law(x, "maybe first side on sale gift swap within 1 when day=7;maybe first side on sale gift swap within 1;");
+        Told.law(x, "maybe first side on sale gift swap within 1 when day=7;maybe first side on sale gift swap within 1;");
         mendedIs(x, 1, 1, 1);
         x.days(1);
         mendedIs(x, 1, 1, 2);
-        law(x, "maybe first share on sale gift swap within 1;first side on sale gift swap within 1;maybe first water on sale within 1;");
+        Told.law(x, "maybe first share on sale gift swap within 1;first side on sale gift swap within 1;maybe first water on sale within 1;");
         mendedIs(x, 1, 0, 0);
         due("what 2", x.mended(0, 0, 5, 1, 2), -1);
         due("what -1", x.mended(0, 0, 5, 1, -1), -1);
@@ -1235,7 +1187,7 @@ public final class PromisesTest {
         due("holds none", x.mended(0, 1, 5, 1, 0), -1);
         due("each 801", x.mended(0, 0, 5, 801, 0), -1);
         due("each -1", x.mended(0, 0, 5, -1, 0), -1);
-        law(x, "maybe first side on sale gift swap within 1 when price<12;maybe first side on sale gift within 1;");
+        Told.law(x, "maybe first side on sale gift swap within 1 when price<12;maybe first side on sale gift within 1;");
         mendedIs(x, 1, -1, -1);
         mendedIs(x, 0, 1, 1);
         mendedIs(x, 1, -1, -1);
@@ -1250,28 +1202,28 @@ public final class PromisesTest {
         due("no neighbour but himself", x.mended(1, 0, 5, 0, 0), -1);
         x.part(1, 0, 1, 11);
         twoWays();
-        law(x, "maybe first share on sale gift swap within 1;first side on sale gift swap within 1;maybe first water on sale within 1;");
+        Told.law(x, "maybe first share on sale gift swap within 1;first side on sale gift swap within 1;maybe first water on sale within 1;");
         due("what is maybe is not in force", x.would(0, 0, 5, 1, SALE, 1, 1), 2 + 8);
     }
 
     /** Each of two lines stops one of two ways to what the owner keeps; only both of them stop both. */
     private static void twoWays() {
-        FirstComer y = village(3, "maybe first side on sale gift swap within 1;");
+        FirstComer y = Told.parcels(3, "maybe first side on sale gift swap within 1;");
         y.beside(0, 2, 0);
         y.part(1, 1, 0, 12);
         due("this parcel", y.mended(0, 0, 5, 1, 0), 1);
         due("another one of the same owner", y.mended(1, 0, 5, 1, 0), -1);
         due("this parcel", y.mended(0, 0, 5, 1, 0), 1);
-        FirstComer x = village(1);
+        FirstComer x = Told.parcels(1);
         x.part(0, 0, 8, 9);
         x.kin(0, 6, 1);
-        law(x, "first kin on sale gift swap within 1 when 2<n;maybe first kin on sale gift swap within 1 when n=1 and keeps=2;maybe first kin on sale gift swap within 1 when n=2 and keeps=1;");
+        Told.law(x, "first kin on sale gift swap within 1 when 2<n;maybe first kin on sale gift swap within 1 when n=1 and keeps=2;maybe first kin on sale gift swap within 1 when n=2 and keeps=1;");
         mendedIs(x, 1, 2, 3);
     }
 
     private static void marks() {
         promise = 30;
-        FirstComer x = village(2, "price paid;first side on sale within 1;");
+        FirstComer x = Told.parcels(2, "price paid;first side on sale within 1;");
         x.beside(0, 1, 0);
         x.days(5);
         x.pass(0, 0, 9, 6, SALE, 10, 8);
@@ -1341,7 +1293,7 @@ public final class PromisesTest {
 
     private static void counts() {
         promise = 31;
-        FirstComer x = village(3, "first side on sale within 1;free when n=7;maybe free when 1;price paid;");
+        FirstComer x = Told.parcels(3, "first side on sale within 1;free when n=7;maybe free when 1;price paid;");
         x.beside(0, 1, 0);
         x.days(3);
         x.pass(0, 0, 9, 2, SALE, 1, 1);
