@@ -57,6 +57,17 @@ public final class LawEdgesTest {
         }
     }
 
+    static void howManyThereAre() {
+        sheet.sentence(10, "how many there are");
+        FirstComer x = new FirstComer();
+        for (int signs = 1; signs <= 100; signs++) {
+            sheet.due("one more", x.feed(0, signs % 2 == 0 ? 'a' : 0, signs % 2 == 0 ? 0 : 'a'), signs);
+            sheet.due("signs on the tape", x.count(7), signs);
+        }
+        x.law();
+        sheet.due("anew", x.feed(0, 0, 'a'), 1);
+    }
+
     private static FirstComer fullTape() {
         FirstComer x = Told.parcels(2);
         Told.feed(x, Told.times(989, " ") + "free when 1");
@@ -142,6 +153,10 @@ public final class LawEdgesTest {
         sheet.lawIs("free when 7abcdefghi;", 1, 11);
         sheet.lawIs("free when " + Told.times(16, "n") + ";", 1, 10);
         sheet.lawIs(Told.times(1000, "z"), 1, 0);
+        sheet.lawIs("free when nz;", 1, 10);
+        sheet.lawIs("free when na;", 1, 10);
+        sheet.lawIs("free when zn;", 1, 10);
+        sheet.lawIs("free when an;", 1, 10);
         sheet.lawIs("free when @n;", 1, 10);
         sheet.lawIs("free when `n;", 1, 10);
         sheet.lawIs("free when {n;", 1, 10);
@@ -193,6 +208,59 @@ public final class LawEdgesTest {
     }
 
     // Promise 11: the lines
+
+    static void theTapeIsReadAsALaw() {
+        sheet.sentence(11, "The TAPE is read as a LAW");
+        FirstComer x = new FirstComer();
+        sheet.due("nothing on it", x.law(), 0);
+        Told.feed(x, "free when");
+        sheet.due("in two rows", Told.feed(x, " 1;"), 12);
+        sheet.due("read", x.law(), 0);
+        sheet.due("in force", x.count(4), 1);
+        sheet.due("nothing on it", x.law(), 0);
+        sheet.due("in force", x.count(4), 0);
+    }
+
+    static void theLinesThereAre() {
+        sheet.sentence(11, "first WHO on FORM .. within N ; first WHO on FORM .. within N when E ; free when E ; price paid ; price told ; parts heads ; parts shares ;");
+        FirstComer x = new FirstComer();
+        String[] all = {"first kin on sale within 1 ;", "first kin on sale within 1 when 1 ;", "free when 1 ;", "price paid ;", "price told ;", "parts heads ;", "parts shares ;"};
+        for (int i = 0; i < all.length; i++) {
+            sheet.due(all[i], Told.law(x, all[i]), 0);
+            sheet.due("in force", x.count(4), i < 3 ? 1 : 0);
+            String open = all[i].substring(0, all[i].length() - 2);
+            sheet.lawIs(open, 1, open.length());
+            sheet.lawIs(all[i] + ";", 1, all[i].length());
+        }
+    }
+
+    static void whoComesFirst() {
+        sheet.sentence(11, "WHO: kin, share, side, water.");
+        String[] whos = {"kin", "share", "side", "water"};
+        for (int i = 0; i < 4; i++) {
+            FirstComer x = Told.parcels(4, "first " + whos[i] + " on sale within 1;");
+            x.kin(0, 10, 3);
+            x.part(0, 0, 11, 1);
+            x.beside(0, 2, 0);
+            x.water(0, 3);
+            int[] comes = {1 << 10, 1 << 11, 1 << 2, 1 << 3};
+            sheet.due(whos[i], x.would(0, 0, 9, 1, SALE, 0, 0), comes[i]);
+        }
+        for (String none : new String[] {"n", "owns", "day", "first", "free", "heads", "waters", "kins", "sale"}) {
+            sheet.lawIs("first " + none + " on sale within 1;", 1, 6);
+        }
+    }
+
+    static void theFactsThereAre() {
+        sheet.sentence(11, "Facts: n, price, paid, keeps, estate, has, sale, gift, swap, need, holds, owns, degree, day.");
+        for (String fact : tokens(FACTS)) {
+            sheet.lawIs("free when " + fact + ";", 0, 0);
+            sheet.lawIs("first kin on sale within 1 when 1 or " + fact + ";", 0, 0);
+        }
+        for (String word : tokens(OTHER_WORDS + " x holdss own")) {
+            sheet.lawIs("free when " + word + ";", 1, 10);
+        }
+    }
 
     static void anyNumberOfLines() {
         sheet.sentence(11, "LAW: any number of");
@@ -377,8 +445,11 @@ public final class LawEdgesTest {
         return all;
     }
 
-    /** Behind this text no token can stand but these; the text with one of them lacks something at its end, if it does not end with a ; there. */
-    private static void onlyThese(String text, String row) {
+    /**
+     * Behind this text no token can stand but these, and those of the second row are told again there.
+     * The text with one that can stand lacks something at its end, if it does not end with a ; there.
+     */
+    private static void onlyThese(String text, String row, String again) {
         List<String> can = tokens(row);
         for (String token : tokens(PARTS + " " + OTHER_WORDS + " " + SIGNS + " " + NONE_AT_ALL)) {
             String more = text + " " + token;
@@ -387,10 +458,15 @@ public final class LawEdgesTest {
             } else if (can.contains(token)) {
                 sheet.lawIs(more, 1, more.length());
             } else {
-                sheet.lawIs(more, 1, text.length() + 1);
-                sheet.lawIs(more + " ?", 1, text.length() + 1);
+                int kind = tokens(again).contains(token) ? 3 : 1;
+                sheet.lawIs(more, kind, text.length() + 1);
+                sheet.lawIs(more + " ?", kind, text.length() + 1);
             }
         }
+    }
+
+    private static void onlyThese(String text, String row) {
+        onlyThese(text, row, "");
     }
 
     static void whatCanStandInALine() {
@@ -419,16 +495,6 @@ public final class LawEdgesTest {
         onlyThese("parts shares", ";");
     }
 
-    /** The same, but for some that are of another kind there. */
-    private static void onlyThese(String text, String row, String again) {
-        for (String token : tokens(again)) {
-            sheet.lawIs(text + " " + token, 3, text.length() + 1);
-        }
-        for (String token : tokens(row)) {
-            sheet.lawIs(text + " " + token, 1, text.length() + 1 + token.length());
-        }
-    }
-
     static void whatCanStandInACondition() {
         sheet.sentence(11, "E: TEST { and TEST or or TEST }, from the left; TEST: SUM, or SUM < SUM, or SUM = SUM; SUM: PRODUCT { + or - PRODUCT }; PRODUCT: PART { * PART }; PART: a NUMBER, a fact, not PART, ( E )");
         for (String ahead : tokens("free|when first|kin|on|sale|within|7|when free|when|( free|when|not free|when|n|+ free|when|n|- free|when|n|* free|when|n|< free|when|n|= free|when|n|and free|when|n|or free|when|n|<|n|or")) {
@@ -444,6 +510,18 @@ public final class LawEdgesTest {
         onlyThese("free when (n<n", "and or + - * )");
         onlyThese("free when ((n)", "and or < = + - * )");
         onlyThese("maybe first kin on sale within 7 when n=(n=n)", "and or + - * ;");
+    }
+
+    static void kindAndPlace() {
+        sheet.sentence(11, "FAULTS, kind + 16 * the place (from 0) of a token");
+        for (int place : new int[] {0, 1, 15, 16, 17, 255, 256, 994, 999}) {
+            sheet.due("1 at " + place, Told.law(new FirstComer(), Told.times(place, " ") + "?"), 1 + 16 * place);
+        }
+        for (int place : new int[] {25, 100, 900}) {
+            sheet.due("4 at " + place, Told.law(new FirstComer(), Told.times(place - 25, " ") + "first kin on sale within 1000;"), 4 + 16 * place);
+        }
+        sheet.due("3 at 995", Told.law(new FirstComer(), "price paid;" + Told.times(984, " ") + "price"), 3 + 16 * 995);
+        sheet.due("5 at 999", Told.law(new FirstComer(), "free when(((((" + Told.times(985, " ") + "1"), 5 + 16 * 999);
     }
 
     static void theEndIsOneAtTheTextsLength() {
@@ -560,6 +638,38 @@ public final class LawEdgesTest {
         sheet.due("an empty one", x.law(), 0);
         sheet.due("nobody may", x.would(0, 9, 8, 1, SALE, 9, 8), 0);
         sheet.due("from then on", x.may(0, 1), 0);
+        x.pass(0, 9, 8, 1, SALE, 9, 8);
+        sheet.due("price told", x.look(1, 11), 9);
+        Told.law(x, "price paid;parts shares;");
+        Told.law(x, "price paid;parts shares;");
+        Told.law(x, "first side on sale within 3;");
+        x.pass(0, 9, 8, 5, SALE, 9, 8);
+        sheet.due("price told", x.look(2, 11), 9);
+        sheet.due("parts heads", x.parted(2, 1), 3);
+        sheet.due("parts heads", x.parted(2, 2), 2);
+    }
+
+    static void nothingOfTheOneAhead() {
+        sheet.sentence(11, "Without a FAULT it is the LAW from then on");
+        FirstComer x = Told.parcels(2);
+        x.beside(0, 1, 0);
+        for (int i = 0; i < 3; i++) {
+            sheet.due("a long one", Told.law(x, "free when not 0*not 0*not 0;" + Told.times(5, "first side on sale gift swap within 1;") + Told.times(6, "maybe first side on sale gift swap within 1;")), 0);
+            sheet.due("is free", free(x, 3), 1);
+        }
+        for (int i = 0; i < 3; i++) {
+            sheet.due("a short one", Told.law(x, "free when 5;"), 0);
+            sheet.due("is free", free(x, 3), 1);
+            sheet.due("nobody may", x.would(0, 0, 9, 1, SALE, 0, 0), 0);
+        }
+        for (int i = 0; i < 3; i++) {
+            sheet.due("an empty one", x.law(), 0);
+            sheet.due("is not free", free(x, 3), 0);
+            sheet.due("nobody may", x.would(0, 0, 9, 1, SALE, 0, 0), 0);
+            sheet.due("a row", x.sly(0, 0, 9, 1), 1);
+            sheet.due("no lines", x.count(4) + x.count(5), 0);
+            sheet.due("no set does", x.mended(0, 0, 9, 1, 0), -1);
+        }
     }
 
     // Promise 11: what conditions come to

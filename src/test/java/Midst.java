@@ -49,7 +49,7 @@ final class Midst {
         x.days(1);
         x.mark(2, false);
         x.honest(2, 2, 6, 1, Told.SALE, 5);
-        x.honest(11, 15, 3, 12, Told.GIFT, 0);
+        x.honest(11, 15, 2, 12, Told.GIFT, 0);
         Told.feed(x, "free when n<");
         return x;
     }

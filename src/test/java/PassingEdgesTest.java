@@ -116,6 +116,49 @@ public final class PassingEdgesTest {
         sheet.due("all are back", x.holds(0, 0), 12);
     }
 
+    static void theyGoFromTheSellerToTheBuyer() {
+        sheet.sentence(14, "A PASSING: so many TWELFTHS (n) of a PARCEL go from a seller, who holds them, to a buyer by a FORM");
+        for (int form = 0; form < 3; form++) {
+            for (int n = 1; n <= 12; n++) {
+                FirstComer x = Told.parcels(2);
+                sheet.due("pass", x.pass(0, 0, 1, n, form, 0, 0), 0);
+                sheet.due("the seller's", x.holds(0, 0), 12 - n);
+                sheet.due("the buyer's", x.holds(0, 1), n);
+                sheet.due("the other parcel's", x.holds(1, 1), 12);
+            }
+        }
+    }
+
+    static void toldOnTheDayNow() {
+        sheet.sentence(14, "PASSINGS, 40 at most, are told on the DAY NOW: who MAY with which RANK and days is kept with each, by the LAW of then.");
+        FirstComer x = Told.parcels(4, "first kin on sale within 3 when need;first side on sale within 4;parts shares;");
+        x.days(7);
+        x.kin(0, 5, 1);
+        x.need(5, true);
+        x.beside(0, 1, 0);
+        x.beside(0, 2, 0);
+        x.part(1, 1, 2, 3);
+        x.pass(0, 0, 9, 8, SALE, 1, 1);
+        x.hears(0, 1, 7);
+        x.hears(0, 5, 7);
+        Told.law(x, "first water on sale within 9;first side on sale within 8;free when 1;parts heads;");
+        x.days(1);
+        x.kin(0, 5, 0);
+        x.need(5, false);
+        x.water(0, 3);
+        x.part(1, 2, 3, 3);
+        x.part(2, 2, 3, 12);
+        sheet.due("its day", x.look(0, 7), 7);
+        sheet.due("not free", x.look(0, 8), 0);
+        sheet.row("may(0, person)", person -> x.may(0, person), -1, 1, 1, -1, -1, 0, -1);
+        sheet.row("order(0, i)", i -> x.order(0, i), 5, 1, 2, -1);
+        sheet.due("till(0, 1)", x.till(0, 1), 11);
+        sheet.due("till(0, 5)", x.till(0, 5), 10);
+        // 8 * 9 / 24 and 8 * 15 / 24.
+        sheet.row("parted(0, person)", person -> x.parted(0, person), -1, 3, 5, -1, -1, 8, -1);
+        sheet.due("by the law of now", x.look(x.pass(0, 0, 9, 1, SALE, 1, 1), 8), 1);
+    }
+
     private static FirstComer fortyPassings() {
         FirstComer x = Told.parcels(2, "first side on sale within 1;");
         x.beside(0, 1, 0);
@@ -432,6 +475,29 @@ public final class PassingEdgesTest {
         sheet.due("nobody may", y.order(0, 0), -1);
     }
 
+    static void theFirstAndTheLastOfThePeople() {
+        sheet.sentence(18, "The i-th who MAY, by RANKS, then by numbers");
+        FirstComer x = new FirstComer();
+        x.parcel(0, 7);
+        Told.law(x, "first kin on sale within 1 when degree=1;first kin on sale within 1;");
+        x.kin(7, 0, 1);
+        x.kin(7, 15, 1);
+        x.kin(7, 3, 2);
+        x.pass(0, 7, 8, 3, SALE, 0, 0);
+        sheet.row("order(0, i)", i -> x.order(0, i), 0, 15, 3, -1);
+        sheet.due("parted(0, 0)", x.parted(0, 0), 2);
+        sheet.due("parted(0, 15)", x.parted(0, 15), 1);
+        sheet.due("parted(0, 3)", x.parted(0, 3), 3);
+        x.waive(0, 15);
+        sheet.due("0 is of a lesser rank", x.claim(0, 3, 0), 3);
+        x.waive(0, 0);
+        sheet.due("nobody is any more", x.claim(0, 3, 0), 0);
+        x.pass(0, 7, 8, 3, SALE, 0, 0);
+        x.waive(1, 0);
+        sheet.due("15 is of a lesser rank", x.claim(1, 3, 0), 3);
+        sheet.due("15 takes it", x.claim(1, 15, 0), 0);
+    }
+
     static void noneSuchInOrder() {
         sheet.sentence(18, "NONE: none such");
         for (int i : new int[] {-1, 5, 6, 16, 40, Integer.MIN_VALUE, Integer.MAX_VALUE}) {
@@ -471,6 +537,34 @@ public final class PassingEdgesTest {
         for (int person : Sheet.NO_PEOPLE) {
             sheet.refused("hears(0, " + person + ", 9)", 0, v -> Sheet.bit(v.hears(0, person, 9)));
         }
+    }
+
+    static void eachOfThePeopleHearsAndWaives() {
+        sheet.sentence(19, "One HEARS of a PASSING on a DAY");
+        FirstComer x = new FirstComer();
+        x.parcel(0, 7);
+        Told.law(x, "first kin on sale within 100;");
+        for (int person = 0; person < 16; person++) {
+            x.kin(7, person, person == 8 ? 0 : 1);
+        }
+        x.pass(0, 7, 8, 1, SALE, 0, 0);
+        x.days(20);
+        for (int person = 0; person < 16; person++) {
+            boolean may = person != 7 && person != 8;
+            sheet.due("did not hear", x.till(0, person), -1);
+            sheet.yes("hears(0, " + person + ")", x.hears(0, person, 20 - person));
+            sheet.due("till", x.till(0, person), may ? 120 - person : -1);
+            sheet.due("waive(0, " + person + ")", Sheet.bit(x.waive(0, person)), may ? 1 : 0);
+        }
+        for (int person = 0; person < 16; person++) {
+            boolean may = person != 7 && person != 8;
+            sheet.no("told once", x.hears(0, person, 20));
+            sheet.due("till stays", x.till(0, person), may ? 120 - person : -1);
+            sheet.no("waived once", x.waive(0, person));
+            sheet.due("his claim", x.claim(0, person, 9), 1);
+        }
+        sheet.due("not taken", x.look(0, 10), -1);
+        sheet.due("paid", x.look(0, 6), 0);
     }
 
     static void hearsOnTheFirstAndTheLastDay() {
@@ -659,6 +753,35 @@ public final class PassingEdgesTest {
         lost(waived, 5, 0, 1);
         FirstComer x = waived.get();
         sheet.due("another of his rank", x.claim(0, 6, 8), 0);
+    }
+
+    static void itWasTaken() {
+        sheet.sentence(23, "6 it was TAKEN");
+        Supplier<FirstComer> taken = () -> {
+            FirstComer x = claimed();
+            x.claim(0, 5, 8);
+            return x;
+        };
+        for (int person = 0; person < 16; person++) {
+            lost(taken, person, 0, 6);
+            lost(taken, person, Integer.MAX_VALUE, 6);
+        }
+        sheet.refused(taken, "coin below 0", -1, v -> v.claim(0, 5, -1));
+    }
+
+    static void heIsLate() {
+        sheet.sentence(23, "2 he is late");
+        for (int heard = 0; heard <= 2; heard++) {
+            int day = heard;
+            lost(() -> {
+                FirstComer x = claimed();
+                x.hears(0, 5, day);
+                return x;
+            }, 5, 99, 2);
+        }
+        FirstComer x = claimed();
+        x.hears(0, 5, 3);
+        sheet.due("heard on day 3 of 5, within 2", x.claim(0, 5, 8), 0);
     }
 
     static void aheadOfLate() {
@@ -890,6 +1013,24 @@ public final class PassingEdgesTest {
         x.part(2, 1, 3, 3);
         x.part(1, 1, 3, 12);
         sheet.due("what he held ahead of it", x.parted(3, 1), 2);
+        // Person 1 counts 4 of parcel 0, person 2 counts 12 of parcel 11; what they hold elsewhere is nothing to it.
+        FirstComer y = new FirstComer();
+        y.parcel(5, 5);
+        y.parcel(0, 1);
+        y.parcel(11, 2);
+        y.parcel(6, 1);
+        y.part(0, 1, 5, 8);
+        Told.law(y, "parts shares;first side on sale within 1;first water on swap within 1;");
+        for (int other = 0; other < 12; other += 11) {
+            y.beside(5, other, 1);
+            y.water(5, other);
+        }
+        y.pass(5, 5, 9, 4, SALE, 0, 0);
+        y.pass(5, 5, 9, 4, SWAP, 0, 0);
+        for (int passing = 0; passing < 2; passing++) {
+            sheet.due("4 * 4 / 16", y.parted(passing, 1), 1);
+            sheet.due("4 * 12 / 16", y.parted(passing, 2), 3);
+        }
     }
 
     static void waivedOrNot() {

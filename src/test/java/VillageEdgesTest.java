@@ -48,6 +48,26 @@ public final class VillageEdgesTest {
         sheet.due("no set is needed, but no set does", x.mended(0, 0, 9, 0, 0), -1);
     }
 
+    static void noneIsMinusOne() {
+        sheet.sentence(1, "The constants: `NONE = -1`: None.");
+        sheet.due("NONE", FirstComer.NONE, -1);
+        FirstComer x = new FirstComer();
+        sheet.due("holds(0, 0)", x.holds(0, 0), FirstComer.NONE);
+    }
+
+    static void theLastCallThatIsPromised() {
+        sheet.sentence(1, "An object is used for at most 512 calls after it has been made; what later calls answer is free.");
+        FirstComer x = new FirstComer();
+        sheet.yes("call 1", x.parcel(0, 0));
+        for (int call = 2; call <= 509; call++) {
+            boolean there = call % 2 == 0;
+            sheet.yes("call " + call, x.part(0, there ? 0 : 15, there ? 15 : 0, 12));
+        }
+        sheet.due("call 510", x.holds(0, 0), 12);
+        sheet.due("call 511", x.pass(0, 0, 1, 12, SALE, 1, 1), 0);
+        sheet.due("call 512", x.holds(0, 1), 12);
+    }
+
     static void aNewOneHasNothingElse() {
         sheet.sentence(1, "A new object");
         FirstComer x = new FirstComer();

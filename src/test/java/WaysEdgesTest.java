@@ -81,6 +81,56 @@ public final class WaysEdgesTest {
         sheet.due("holds", x.holds(0, 0), 7);
     }
 
+    static void byAllThatIsSoNow() {
+        sheet.sentence(25, "WAYS ROUND, by all that is so now.");
+        FirstComer x = kin(2, "first kin" + ALL + " when day<9 and need;");
+        rowIs(x, 0, 0, 5, 1, 0, 12, SALE);
+        x.need(6, true);
+        rowIs(x, 0, 0, 5, 1);
+        farIs(x, 5, 9, 1, 1, 1, 2);
+        x.days(8);
+        rowIs(x, 0, 0, 5, 1);
+        x.days(1);
+        rowIs(x, 0, 0, 5, 1, 0, 12, SALE);
+        farIs(x, 5, 9, 1, 2, 2, 3);
+        x.pass(0, 0, 9, 5, SALE, 0, 0);
+        rowIs(x, 0, 0, 5, 1, 0, 7, SALE);
+        farIs(x, 5, 9, 1, 1, 1, 2);
+        x.kin(0, 6, 0);
+        Told.law(x, "first kin" + ALL + ";");
+        rowIs(x, 0, 0, 5, 1, 0, 7, SALE);
+    }
+
+    static void fromAnOwnerToAParcel() {
+        sheet.sentence(25, "A SLY ROW for a stranger from an owner to a PARCEL");
+        FirstComer x = kin(2, "first kin" + ALL + " when not(keeps+n=5);");
+        x.part(0, 0, 7, 7);
+        rowIs(x, 0, 0, 5, 1, 0, 5, SALE);
+        rowIs(x, 0, 7, 5, 1, 0, 7, SALE);
+        rowIs(x, 0, 7, 0, 1, 0, 7, SALE);
+        rowIs(x, 1, 1, 0, 1, 1, 12, SALE);
+        x.part(0, 0, 7, 1);
+        rowIs(x, 0, 0, 5, 1);
+        rowIs(x, 0, 7, 5, 1, 0, 8, SALE);
+    }
+
+    static void byAnyForm() {
+        sheet.sentence(25, "by any FORM, at each of which nobody MAY come first");
+        String[] forms = {"sale", "gift", "swap"};
+        for (int open = 0; open < 3; open++) {
+            String law = "";
+            for (int form = 0; form < 3; form++) {
+                law += form == open ? "" : "first kin on " + forms[form] + " within 1;";
+            }
+            rowIs(kin(1, law), 0, 0, 5, 1, 0, 12, open);
+            // Half of it by this form, and the other half by each other one.
+            for (int rest = 0; rest < 3; rest++) {
+                FirstComer x = kin(1, "first kin" + ALL + " when not(" + forms[open] + " and keeps=6)and not(" + forms[rest] + " and keeps+n=6);");
+                rowIs(x, 0, 0, 5, 1, 0, 6, open, 0, 6, rest);
+            }
+        }
+    }
+
     static void pricesOfARow() {
         sheet.sentence(25, "A price EACH (0 to 800) is told: of a sale and a swap of n TWELFTHS price and paid are n * EACH, of a gift 0.");
         FirstComer x = kin(1, "first kin" + ALL + " when not(price=9600 and paid=9600);");
@@ -130,6 +180,25 @@ public final class WaysEdgesTest {
         rowIs(x, 5, 0, 9, 1);
         x.part(0, 0, 3, 5);
         rowIs(x, 5, 0, 9, 1, 0, 1, SALE, 5, 1, SALE);
+    }
+
+    static void theFirstAndTheLastParcelAsTheOther() {
+        sheet.sentence(25, "that of the least number, not this one");
+        String law = "first kin" + ALL + " when not has and not(keeps+n=7);";
+        for (int other = 0; other < 12; other++) {
+            for (int parcel = 0; parcel < 12; parcel++) {
+                if (parcel != other) {
+                    FirstComer x = Told.parcels(0, law);
+                    x.kin(0, 6, 1);
+                    x.parcel(parcel, 0);
+                    x.parcel(other, 1);
+                    x.part(other, 1, 0, 7);
+                    rowIs(x, parcel, 0, 5, 1, other, 1, SALE, parcel, 12, SALE);
+                    x.part(other, 0, 1, 7);
+                    rowIs(x, parcel, 0, 5, 1);
+                }
+            }
+        }
     }
 
     static void theOtherOneStaysTheOther() {
@@ -244,6 +313,18 @@ public final class WaysEdgesTest {
         FirstComer x = Midst.village();
         int most = x.far(5, 9, 1, 0);
         sheet.refused("far(5, 9, 1, 0), which changes nothing", most, v -> v.far(5, 9, 1, 0));
+    }
+
+    static void whatIsToldOfIt() {
+        sheet.sentence(27, "HOW FAR, what 0: the most PARCELS, 1: the fewest YEARS, 2: the set");
+        FirstComer x = Told.parcels(12, "first kin" + ALL + ";");
+        for (int owner = 0; owner < 11; owner++) {
+            x.kin(owner, 14, 1);
+        }
+        farIs(x, 15, 9, 0, 1, 1, 1 << 11);
+        farIs(x, 0, 9, 0, 2, 1, 1 << 11 | 1);
+        farIs(x, 11, 9, 0, 1, 0, 1 << 11);
+        farIs(x, 14, 9, 0, 9, 9, 511);
     }
 
     static void oneToNineYears() {
@@ -409,6 +490,8 @@ public final class WaysEdgesTest {
     static void mendedRefuses() {
         sheet.sentence(29, "NONE: as of sly() (but for none: 0 LINES then, if the HONEST ones are), another what, no set does.");
         refusesRound("mended", () -> kin(1, "maybe first kin" + ALL + ";"), (x, parcel, owner, stranger, each) -> x.mended(parcel, owner, stranger, each, 0));
+        FirstComer x = Midst.village();
+        mendedIs(x, 1, 1);
         for (int what : new int[] {-1, 2, 3, Integer.MIN_VALUE, Integer.MAX_VALUE}) {
             sheet.refused("mended, what " + what, -1, v -> v.mended(0, 0, 5, 1, what));
         }
@@ -451,7 +534,18 @@ public final class WaysEdgesTest {
             six += "maybe first kin on " + form + " within 1 when n<6;maybe first kin on " + form + " within 1 when 5<n;";
         }
         mendedIs(kin(1, six), 6, 63);
+        mendedIs(kin(1, all + "maybe free when 1;"), 1, 1);
+        mendedIs(kin(1, "maybe free when 1;" + all), 1, 2);
+        mendedIs(kin(1, "maybe free when 1;maybe free when gift;" + sale + gift + swap), 3, 28);
         mendedIs(kin(1, six.replace("5<n", "6<n")), -1, -1);
+    }
+
+    static void aSetAsBits() {
+        sheet.sentence(29, "MENDED: LINES with maybe, a set of them as bits (from 0 in the text)");
+        for (int at = 0; at < 6; at++) {
+            String law = Told.times(at, "maybe free when 0;first side" + ALL + ";") + "maybe first kin" + ALL + ";" + Told.times(5 - at, "maybe first water" + ALL + ";");
+            mendedIs(kin(1, law), 1, 1 << at);
+        }
     }
 
     static void asTheyStandInTheText() {
