@@ -657,6 +657,10 @@ public final class LawEdgesTest {
             sheet.due("a long one", Told.law(x, "free when not 0*not 0*not 0;" + Told.times(5, "first side on sale gift swap within 1;") + Told.times(6, "maybe first side on sale gift swap within 1;")), 0);
             sheet.due("is free", free(x, 3), 1);
         }
+        for (int i = 1; i <= 6; i++) {
+            sheet.due("a longer one", Told.law(x, "free when 0" + Told.times(195, "*n") + "+(n=" + i + ");"), 0);
+            sheet.due("is free", free(x, 3), i == 3 ? 1 : 0);
+        }
         for (int i = 0; i < 3; i++) {
             sheet.due("a short one", Told.law(x, "free when 5;"), 0);
             sheet.due("is free", free(x, 3), 1);

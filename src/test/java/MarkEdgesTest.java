@@ -255,7 +255,9 @@ public final class MarkEdgesTest {
         sheet.due("not heard", x.till(1, 1), -1);
         sheet.due("not proven", x.look(1, 6), 18);
         sheet.due("not waived", x.claim(1, 1, 18), 0);
+        sheet.due("one is taken", x.count(3), 1);
         x.mark(0, true);
+        sheet.due("it is gone", x.count(3), 0);
         sheet.due("its number", x.pass(0, 0, 9, 5, GIFT, 0, 0), 1);
         sheet.due("not taken", x.look(1, 10), -1);
         sheet.due("nobody may", x.order(1, 0), -1);

@@ -243,6 +243,10 @@ public final class WaysEdgesTest {
         x.part(0, 0, 15, 5);
         rowIs(x, 0, 0, 5, 1, 0, 7, SALE);
         sheet.due("the other one's stay", x.holds(0, 15), 5);
+        Told.law(x, "free when n=7;first kin" + ALL + ";");
+        rowIs(x, 0, 0, 5, 1, 0, 7, SALE);
+        Told.law(x, "first kin" + ALL + ";free when n=8;");
+        rowIs(x, 0, 0, 5, 1);
     }
 
     static void theLongestRow() {
@@ -420,6 +424,46 @@ public final class WaysEdgesTest {
         farIs(x, 9, 9, 0, 4, 4, 15);
     }
 
+    static void fromTheLastToTheFirst() {
+        sheet.sentence(27, "HOW FAR a stranger comes in YEARS (1 to 9): in each he may get one PARCEL");
+        // Kin who cares stops him everywhere but at parcel 11, and where he is a neighbour by then.
+        FirstComer x = Told.parcels(12, "first side" + ALL + ";first kin" + ALL + ";");
+        for (int parcel = 0; parcel < 12; parcel++) {
+            x.care(parcel, false);
+            if (parcel < 11) {
+                x.kin(parcel, 14, 1);
+                x.beside(parcel, parcel + 1, parcel % 4);
+            }
+        }
+        for (int years = 1; years <= 9; years++) {
+            farIs(x, 15, years, 0, years, years, 4096 - (1 << 12 - years));
+        }
+        farIs(x, 14, 9, 0, 9, 9, 511);
+        farIs(x, 11, 9, 0, 10, 9, 4096 - 4);
+    }
+
+    static void whatMustComeAhead() {
+        sheet.sentence(27, "of the sets of those PARCELS that come about so the least one as bits");
+        // Parcel 2 goes to one who has nothing, the other two to anybody.
+        FirstComer x = Told.parcels(3, "first kin" + ALL + " when has;");
+        x.kin(2, 6, 1);
+        farIs(x, 9, 1, 0, 1, 1, 1);
+        farIs(x, 9, 2, 0, 2, 2, 3);
+        farIs(x, 9, 3, 0, 3, 3, 7);
+        x.parcel(3, 9);
+        farIs(x, 9, 9, 0, 3, 2, 11);
+        farIs(x, 8, 9, 0, 4, 4, 15);
+        Told.law(x, "first kin" + ALL + " when not(has=1);");
+        farIs(x, 8, 1, 0, 1, 1, 1);
+        farIs(x, 8, 9, 0, 4, 4, 15);
+        Told.law(x, "first kin" + ALL + " when not(has=4);");
+        farIs(x, 8, 9, 0, 3, 3, 11);
+        x.kin(9, 6, 1);
+        Told.law(x, "first kin" + ALL + " when not(has=2);");
+        farIs(x, 8, 9, 0, 3, 3, 7);
+        farIs(x, 9, 9, 0, 4, 3, 15);
+    }
+
     // Promise 28
 
     private static FirstComer sixHonest() {
@@ -515,6 +559,10 @@ public final class WaysEdgesTest {
         mendedIs(x, 1, 2);
         Told.law(x, "first kin" + ALL + " when not(n=5);maybe first side" + ALL + ";maybe free when price=4;");
         mendedIs(x, -1, -1);
+        FirstComer y = kin(1, "first kin" + ALL + " when not(price=5);maybe first kin" + ALL + ";maybe free when 1;");
+        mendedIs(y, 0, 0);
+        y.honest(0, 0, 9, 12, SALE, 5);
+        mendedIs(y, 0, 0);
     }
 
     static void theFewestTheLeastAsBits() {
@@ -595,6 +643,30 @@ public final class WaysEdgesTest {
                 x.honest(i == last ? 0 : 1, i == last ? 0 : 1, 9, 12, SALE, 3);
             }
             mendedIs(x, -1, -1);
+        }
+    }
+
+    static void askedInTurn() {
+        sheet.sentence(29, "NONE: as of sly() (but for none: 0 LINES then, if the HONEST ones are)");
+        FirstComer x = kin(2, "maybe first kin" + ALL + " when price<12;");
+        for (int i = 0; i < 3; i++) {
+            sheet.due("stopped at 0", x.mended(0, 0, 5, 0, 0), 1);
+            sheet.due("the row at 0", x.slyRow(0, 0, 5, 0, 0, 0), 0);
+            sheet.due("not stopped at 1", x.mended(0, 0, 5, 1, 0), -1);
+            sheet.due("stopped at 0", x.mended(0, 0, 5, 0, 1), 1);
+            sheet.due("the kin himself is not stopped", x.mended(0, 0, 6, 0, 0), -1);
+            sheet.due("stopped at 0", x.mended(0, 0, 5, 0, 1), 1);
+            sheet.due("another parcel", x.mended(1, 1, 5, 0, 0), -1);
+            sheet.due("its row", x.slyRow(1, 1, 5, 0, 0, 0), 1);
+            sheet.due("stopped at 0", x.mended(0, 0, 5, 0, 0), 1);
+            sheet.due("the other one's row", x.slyRow(1, 1, 5, 0, 0, 0), 1);
+            sheet.due("how far at 0", x.far(5, 9, 0, 2), 3);
+            sheet.due("another price", x.far(5, 9, 800, 0), 2);
+        }
+        x.part(0, 0, 7, 6);
+        for (int i = 0; i < 3; i++) {
+            sheet.due("of an owner whose kin comes", x.mended(0, 0, 5, 0, 0), 1);
+            sheet.due("of another owner", x.mended(0, 7, 5, 0, 0), -1);
         }
     }
 
